@@ -222,9 +222,8 @@ public final class RecordTeller {
             if (other == null || from < 0 || to < from || to > other.cell.length || to - from > cell.length - used) {
                 return false;
             }
-            for (int i = from; i < to; i++) {
-                add(other.cell[i]);
-            }
+            System.arraycopy(other.cell, from, cell, used, to - from);
+            used += to - from;
             return true;
         }
 
@@ -257,13 +256,6 @@ public final class RecordTeller {
                 put(i, at(k));
                 put(k, one);
             }
-        }
-
-        /** Takes over a word and answers where it stands. */
-        int addWord(Cells other, int word) {
-            int start = used;
-            addPart(other, word, word + 1 + other.at(word));
-            return start;
         }
 
         boolean isWord(int i, Cells other, int k) {
@@ -575,7 +567,9 @@ public final class RecordTeller {
                     pos++;
                     break;
                 }
-                if (b == '\\') {
+                if (b == '\\' && tape.peek(pos + 1) == 'u') {
+                    parseFourDigits();
+                } else if (b == '\\') {
                     parseEscape();
                 } else if (b < 32 || b > 126) {
                     fail(pos);
@@ -589,14 +583,8 @@ public final class RecordTeller {
         }
 
         private void parseEscape() {
-            int from = pos;
             pos++;
-            int b = tape.peek(pos);
-            if (b == 'u') {
-                parseFourDigits(from);
-                return;
-            }
-            int meant = escaped(b);
+            int meant = escaped(tape.peek(pos));
             if (meant == NONE) {
                 fail(pos);
                 return;
@@ -626,9 +614,10 @@ public final class RecordTeller {
             }
         }
 
-        private void parseFourDigits(int from) {
+        private void parseFourDigits() {
+            int from = pos;
             int sum = 0;
-            pos++;
+            pos += 2;
             for (int k = 0; k < 4; k++) {
                 int digit = hexDigit(tape.peek(pos));
                 if (digit == NONE) {
@@ -775,7 +764,7 @@ public final class RecordTeller {
         }
 
         int branch(int s, int k) {
-            return k >= 0 && k < parts.at(s) ? partNode.at(part(s, k)) : NULL;
+            return k >= 0 && k < parts.at(s) ? partNode.at(firstPart.at(s) + k) : NULL;
         }
 
         Cells defaults() {
@@ -799,8 +788,11 @@ public final class RecordTeller {
             defaultEnd.put(p, end);
         }
 
+        /** Takes over a word and answers where it stands in the names. */
         int addName(Cells letters, int word) {
-            return names.addWord(letters, word);
+            int start = names.count();
+            names.addPart(letters, word, word + 1 + letters.at(word));
+            return start;
         }
 
         Cells names() {
@@ -829,8 +821,8 @@ public final class RecordTeller {
 
         /** Whether two match of which none is a union, array or map. */
         static boolean matchPlainly(Schema writer, int w, Schema reader, int r) {
-            int from = writer.kind(w);
-            int to = reader.kind(r);
+            int from = writer.kind.at(w);
+            int to = reader.kind.at(r);
             if (from < SIX) {
                 return from == to || from == INT && to == LONG
                         || from == BYTES && to == STRING || from == STRING && to == BYTES;
@@ -839,7 +831,7 @@ public final class RecordTeller {
                 return false;
             }
             return writer.names.isWord(writer.name.at(w), reader.names, reader.name.at(r))
-                    && (from != FIXED || writer.fixedSize(w) == reader.fixedSize(r));
+                    && (from != FIXED || writer.detail.at(w) == reader.detail.at(r));
         }
 
         static boolean match(Schema writer, int w, Schema reader, int r) {
@@ -1066,12 +1058,8 @@ public final class RecordTeller {
                 return fail(9, n);
             }
             int s = plan.addNode(kind);
-            plan.setName(s, keepName(n));
+            plan.setName(s, plan.addName(text.letters(), text.word(n)));
             return s;
-        }
-
-        private int keepName(int v) {
-            return plan.addName(text.letters(), text.word(v));
         }
 
         private boolean isName(int v) {
@@ -1125,7 +1113,7 @@ public final class RecordTeller {
                 if (!text.isString(symbol) || !isName(symbol) || partSaid(s, symbol) != NONE) {
                     return fail(11, symbol);
                 }
-                plan.setPartName(plan.part(s, k), keepName(symbol));
+                plan.setPartName(plan.part(s, k), plan.addName(text.letters(), text.word(symbol)));
                 symbol = text.next(symbol);
             }
             return lookAtFallback(v, s);
@@ -1185,7 +1173,7 @@ public final class RecordTeller {
                 fail(9, n);
                 return;
             }
-            plan.setPartName(p, keepName(n));
+            plan.setPartName(p, plan.addName(text.letters(), text.word(n)));
             int type = text.member(v, "type");
             if (type == NONE) {
                 fail(8, v);
@@ -1295,10 +1283,6 @@ public final class RecordTeller {
             plan.defaults().addPart(text.letters(), word + 1, word + 1 + text.letters().at(word));
         }
 
-        private int symbol(int v, int s) {
-            return plan.partNamed(s, text.letters(), text.word(v));
-        }
-
         /** Whether a value fits a schema that has no others within it. */
         private boolean suits(int v, int s) {
             int is = text.kind(v);
@@ -1317,7 +1301,7 @@ public final class RecordTeller {
                 case Schema.FIXED:
                     return is == Text.STRING && text.length(v) == plan.fixedSize(s);
                 case Schema.ENUM:
-                    return is == Text.STRING && symbol(v, s) != NONE;
+                    return is == Text.STRING && plan.partNamed(s, text.letters(), text.word(v)) != NONE;
                 default:
                     return false;
             }
@@ -1341,7 +1325,7 @@ public final class RecordTeller {
                     putLetters(text.word(v));
                     return;
                 case Schema.ENUM:
-                    bytes.addVarint(symbol(v, s));
+                    bytes.addVarint(plan.partNamed(s, text.letters(), text.word(v)));
                     return;
                 default:
             }
@@ -1746,7 +1730,7 @@ public final class RecordTeller {
             for (int k = 0; k < count && k < MOST_ITEMS && stop == 0; k++) {
                 if (writer.kind(w) == Schema.MAP) {
                     int begin = pos;
-                    skipString();
+                    skip(Schema.STRING, depth);
                     putPart(bytes, begin, pos);
                 }
                 if (stop == 0) {
@@ -1814,7 +1798,9 @@ public final class RecordTeller {
                     return;
                 case Schema.BYTES:
                 case Schema.STRING:
-                    skipString();
+                    // In two steps, as the place is one behind the varint.
+                    int length = (int) varint();
+                    pos += length;
                     return;
                 case Schema.FIXED:
                     pos += writer.fixedSize(s);
@@ -1835,11 +1821,6 @@ public final class RecordTeller {
             }
         }
 
-        private void skipString() {
-            int length = (int) varint();
-            pos += length;
-        }
-
         private void skipItems(int s, int depth) {
             long count = varint();
             if (count == 0) {
@@ -1847,7 +1828,7 @@ public final class RecordTeller {
             }
             for (int k = 0; k < count && k < MOST_ITEMS; k++) {
                 if (writer.kind(s) == Schema.MAP) {
-                    skipString();
+                    skip(Schema.STRING, depth);
                 }
                 skip(writer.item(s), depth + 1);
             }
