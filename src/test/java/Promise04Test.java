@@ -13,6 +13,7 @@ public final class Promise04Test {
         fieldDefaults();
         orderOfDefaults();
         counts();
+        manyFaults();
         effects();
         Check.done();
     }
@@ -340,7 +341,37 @@ public final class Promise04Test {
         Check.fault(14, deep.replace("\"int\"", Check.map("^[]")));
         Check.fault(14, deep.replace("\"int\"", Check.record("R", "a=^{}")));
         good(deep.replace("\"int\"", Check.record("R")));
+        String less = deep.replace(Check.array("\"int\""), "\"int\"");
+        good(less.replace("\"int\"", Check.record("R", "a=\"R\"")));
+        Check.fault(14, less.replace("\"int\"", Check.record("R", "a=" + Check.array("^\"R\""))));
+        good(less.replace("\"int\"", "[\"R\"]").replace("\"R\"", Check.fixed("F", 2)));
+        Check.fault(14, less.replace("\"int\"", Check.map("[^\"R\"]")));
         good("[" + deep.replace("{\"type\":\"array\",\"items\":\"int\"}", "\"int\"") + ",\"null\"]");
+    }
+
+    /** Faults leave nothing behind, however often they are told. */
+    private static void manyFaults() {
+        StringBuilder symbols = new StringBuilder();
+        for (int k = 0; k < 32; k++) {
+            symbols.append(k == 0 ? "" : ",").append("\"a23456789_b23456789_c234567").append(10 + k).append('"');
+        }
+        String start = "{\"type\":\"record\",\"name\":\"R\",\"fields\":[{\"name\":\"e\",\"type\":"
+                + "{\"type\":\"enum\",\"name\":\"E\",\"symbols\":[" + symbols + "]}},{\"name\":\"s\",\"type\":\"string\",\"default\":\""
+                + "x".repeat(900) + "\"},";
+        Check c = new Check();
+        for (int k = 0; k < 20; k++) {
+            String text = start + "{\"name\":\"z\",\"type\":\"int\",\"default\":null}]}";
+            Check.due("fault " + k, k == 0 ? c.schema(4, text) : c.teller.schema(4) + "@" + c.teller.place(), "12@" + text.indexOf("null"));
+        }
+        c.teller.end(c.tapeLength() - 7);
+        c.more(Check.latin("6500}]}"));
+        Check.due("mended", c.teller.schema(4), 0);
+        c.keep(5, Check.record("R"));
+        c.keep(6, "[\"null\"," + Check.record("R", "z=\"int\"=1") + "]");
+        Check.due("fits", c.teller.fits(4, 6) + " " + c.teller.fits(6, 4) + " " + c.teller.fits(5, 5), "true false true");
+        c.keep(7, Check.record("R", "e=" + Check.symbols("E", "a23456789_b23456789_c23456710"), "z=\"int\""));
+        Check.due("load", c.load(7, 0, 2), "1");
+        Check.due("as the mended one", c.teller.read(4, 0), 1 + 902 + 1);
     }
 
     private static void effects() {

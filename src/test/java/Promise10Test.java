@@ -6,6 +6,7 @@ public final class Promise10Test {
         listsAndMaps();
         named();
         records();
+        deep();
         defaults();
         orders();
         full();
@@ -135,23 +136,58 @@ public final class Promise10Test {
         told(Check.array(in), "4 2 2 97 1 4 4 98 99 0 0", Check.array(Check.record("I", "n=\"null\"=null")), "4 0");
         told(Check.map("[\"null\"," + in + "]"), "4 2 107 2 2 2 97 1 2 108 0 0",
                 Check.map("[" + Check.record("I", "y=\"string\"") + ",\"null\"]"), "4 2 107 0 2 97 2 108 2 0");
+        // A field that is skipped to when one before it was told last.
+        String five = Check.record("Q", "a=\"int\"", "b=\"string\"", "c=\"int\"", "d=\"string\"", "e=\"int\"");
+        told(five, "2 2 97 4 4 98 99 6", Check.record("Q", "c=\"int\"", "a=\"int\"", "e=\"int\""), "4 2 6");
+        told(five, "2 2 97 4 4 98 99 6", Check.record("Q", "e=\"int\"", "b=\"string\"", "d=\"string\"", "a=\"int\""), "6 2 97 4 98 99 2");
         // All that can be skipped.
         String all = Check.record("A", "a=\"null\"", "b=\"boolean\"", "c=\"int\"", "d=\"long\"", "e=\"bytes\"", "f=\"string\"",
                 "g=" + Check.fixed("F", 2), "h=" + Check.symbols("E", "x", "y"), "i=[\"int\",\"string\"]",
                 "j=" + Check.map("\"int\""), "k=" + Check.array("\"string\""), "l=" + Check.record("B", "m=\"int\"", "n=\"null\""), "z=\"int\"");
         told(all, "1 200 1 133 1 4 1 2 2 3 9 9 2 2 2 65 4 2 97 1 0 2 0 2 0 0 12 14", Check.record("A", "z=\"int\""), "14");
+        String two = Check.record("A", "a=\"long\"", "b=\"int\"");
+        for (String skipped : new String[] {"0", "127", "126", "128 1", "255 127", "255 255 255 255 255 255 255 255 255 1",
+            "254 255 255 255 255 255 255 255 255 1", "255 255 255 255 255 255 255 255 127"}) {
+            told(two, skipped + " 5", Check.record("A", "b=\"int\""), "5");
+            told(two, skipped + " 5", Check.record("A", "b=\"int\"", "a=\"long\""), "5 " + skipped);
+        }
+    }
+
+    /** Rows as deep as can be, told and skipped. */
+    private static void deep() {
+        String[] types = {"[\"null\",\"R\"]", Check.array("\"R\""), Check.map("\"R\"")};
+        String[] parts = {"2 ", "2 ", "2 2 107 "};
+        for (int k = 0; k < 3; k++) {
+            String ends = k == 0 ? "" : "0 ".repeat(14);
+            String r = Check.record("R", "n=" + types[k]);
+            String row = (parts[k].repeat(14) + "0 " + ends).trim();
+            told(r, row, r, row);
+            String after = Check.record("R", "n=" + types[k], "z=\"boolean\"");
+            String longer = parts[k].repeat(14) + "0 " + (k == 0 ? "1 ".repeat(14) : "1 0 ".repeat(14)) + "0";
+            told(after, longer, after, longer);
+            told(after, longer, Check.record("R", "z=\"boolean\""), "0");
+            told(after, longer, Check.record("R", "z=\"boolean\"", "y=\"int\"=7", "n=" + types[k]),
+                    "0 14 " + (k == 0 ? "2 1 14 ".repeat(14) + "0" : (parts[k] + "1 14 ").repeat(14) + "0" + " 0".repeat(14)));
+        }
+        // Fifteen lists in one another: the innermost row's list lies in 31 others.
+        String tree = Check.record("R", "n=" + types[1]);
+        told(tree, "2 ".repeat(15) + "0" + " 0".repeat(15), tree, "2 ".repeat(15) + "0" + " 0".repeat(15));
+        String maps = Check.record("R", "n=" + types[2]);
+        told(maps, "2 0 ".repeat(15) + "0" + " 0".repeat(15), maps, "2 0 ".repeat(15) + "0" + " 0".repeat(15));
     }
 
     private static void defaults() {
         String w = Check.record("R", "o=\"boolean\"");
         String[] types = {"\"null\"=null", "\"boolean\"=true", "\"boolean\"=false", "\"int\"=-2147483648", "\"long\"=9223372036854775807",
-            "\"int\"=-0", "\"int\"=63", "\"int\"=64", "\"int\"=-64", "\"int\"=-65", "\"bytes\"=\"\\u00ff\\u0000\"", "\"string\"=\"\"", Check.fixed("F", 3) + "=\"a\\u00e9\\n\"",
+            "\"int\"=-0", "\"int\"=63", "\"int\"=64", "\"int\"=-64", "\"int\"=-65", "\"bytes\"=\"\\u00ff\\u0000\"", "\"string\"=\"\"",
+            "\"string\"=\"\\u00Aa\\u00fF\\u0009\\u00A0\"", Check.fixed("F", 3) + "=\"a\\u00e9\\n\"",
             Check.symbols("E", "a", "b", "c") + "=\"c\"", Check.array("\"int\"") + "=[]", Check.array("\"int\"") + "=[1,-1]",
             Check.map("\"int\"") + "={}", Check.map("\"int\"") + "={\"b\":1,\"a\":2}", "[\"int\",\"null\"]=5", "[\"null\",\"int\"]=null",
             Check.array("[\"string\",\"null\"]") + "=[\"a\",\"\"]", Check.record("S", "x=\"int\"", "y=[\"string\"]") + "={\"z\":0,\"y\":\"k\",\"x\":1}",
             Check.map("[" + Check.map("\"null\"") + "]") + "={\"q\":{\"\\u0071\":null}}"};
         String[] due = {"", "1", "0", "255 255 255 255 15", "254 255 255 255 255 255 255 255 255 1",
-            "0", "126", "128 1", "127", "129 1", "4 255 0", "0", "97 233 10",
+            "0", "126", "128 1", "127", "129 1", "4 255 0", "0",
+            "8 170 255 9 160", "97 233 10",
             "4", "0", "4 2 1 0", "0", "4 2 98 2 2 97 4 0", "0 10", "0",
             "4 0 2 97 0 0 0", "2 0 2 107", "2 2 113 0 2 2 113 0 0"};
         for (int k = 0; k < types.length; k++) {

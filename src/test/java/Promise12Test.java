@@ -127,5 +127,6 @@ public final class Promise12Test {
         c.tape(Check.latin("\"string\""));
         c.teller.schema(0);
         Check.due("the other way", c.teller.fits(3, 0) + " " + c.teller.fits(0, 3), "false false");
+        Check.due("behind some that do not fit", c.teller.fits(3, 3) + " " + c.teller.fits(0, 0), "true true");
     }
 }
