@@ -115,7 +115,12 @@ final class Check {
 
     /** How many bytes the tape has; it is as before then. */
     int tapeLength() {
-        for (int n = 4096; n >= 0; n--) {
+        Object fed = answer(() -> teller.feed(0, 0, 0, 0, 0));
+        if (fed instanceof Integer) {
+            teller.end((Integer) fed - 20);
+            return (Integer) fed - 20;
+        }
+        for (int n = 4096; n > 4076; n--) {
             int most = n;
             if (answer(() -> {
                 teller.end(most);

@@ -359,7 +359,7 @@ public final class Promise04Test {
                 + "{\"type\":\"enum\",\"name\":\"E\",\"symbols\":[" + symbols + "]}},{\"name\":\"s\",\"type\":\"string\",\"default\":\""
                 + "x".repeat(900) + "\"},";
         Check c = new Check();
-        for (int k = 0; k < 20; k++) {
+        for (int k = 0; k < 70; k++) {
             String text = start + "{\"name\":\"z\",\"type\":\"int\",\"default\":null}]}";
             Check.due("fault " + k, k == 0 ? c.schema(4, text) : c.teller.schema(4) + "@" + c.teller.place(), "12@" + text.indexOf("null"));
         }

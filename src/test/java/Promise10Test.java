@@ -7,6 +7,7 @@ public final class Promise10Test {
         named();
         records();
         deep();
+        wide();
         defaults();
         orders();
         full();
@@ -153,6 +154,30 @@ public final class Promise10Test {
         }
     }
 
+    /** As many fields and items as can be. */
+    private static void wide() {
+        String in = Check.record("I", "x=\"int\"", "y=\"string\"");
+        String[] fields = new String[32];
+        fields[0] = "f0=" + in;
+        for (int k = 1; k < 32; k++) {
+            fields[k] = "f" + k + "=\"int\"";
+        }
+        String item = "2 2 97" + " 4".repeat(30) + " 6 ";
+        String r = Check.record("W", "f31=\"int\"", "f0=" + Check.record("I", "y=\"string\"", "x=\"int\""), "f1=\"int\"");
+        told(Check.array(Check.record("W", fields)), "4 " + item + item + "0", Check.array(r), "4 6 2 97 2 4 6 2 97 2 4 0");
+        String w = Check.record("R", "a=" + Check.array("\"boolean\""), "b=" + Check.map("\"null\""), "z=\"int\"");
+        Check c = new Check().keep(0, w).keep(1, Check.record("R", "z=\"int\"", "a=" + Check.array("[\"boolean\"]")))
+                .keep(2, Check.record("R", "z=\"long\""));
+        c.load(0, Check.join(Check.bytes(160, 31), new byte[2001], Check.bytes(0, 12)));
+        Check.due("z alone", c.read(2, 0), "12");
+        Check.due("z and 2000 items of two bytes", c.teller.read(1, 0), 1 + 2 + 4000 + 1);
+        Check.due("first", c.teller.letter(0, 1), 12);
+        Check.due("as it is", c.teller.read(0, 0), 2005);
+        c.load(0, Check.join(Check.bytes(0, 160, 31), new byte[2001], Check.bytes(14)));
+        Check.due("z behind a map of 2000", c.read(2, 0), "14");
+        Check.due("as it is", c.teller.read(0, 0), 2005);
+    }
+
     /** Rows as deep as can be, told and skipped. */
     private static void deep() {
         String[] types = {"[\"null\",\"R\"]", Check.array("\"R\""), Check.map("\"R\"")};
@@ -205,7 +230,14 @@ public final class Promise10Test {
         told(w, "2 1 0", Check.record("R", "a=" + Check.array("\"int\""), "b=\"int\""), "-20");
         String big = "\"string\"=\"" + "x".repeat(1500) + "\"";
         String three = Check.record("R", "x=" + big, "y=" + big);
-        told(w, "2 1 0", three, "184 23" + " 120".repeat(1500) + " 184 23" + " 120".repeat(1500));
+        Check c = new Check().keep(0, w).keep(1, three);
+        c.load(0, 2, 1, 0);
+        Check.due("two long defaults", c.teller.read(1, 0), 3004);
+        int[] at = {0, 1, 2, 1501, 1502, 1503, 1504, 3003};
+        int[] due = {184, 23, 120, 120, 184, 23, 120, 120};
+        for (int k = 0; k < at.length; k++) {
+            Check.due("letter " + at[k], c.teller.letter(at[k], 1), due[k]);
+        }
     }
 
     private static void full() {
