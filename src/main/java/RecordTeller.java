@@ -121,7 +121,8 @@ public final class RecordTeller {
             throw new IllegalStateException();
         }
         out.cut(0);
-        int stop = teller.tell(current, i, writer(), reader);
+        teller.prepare(writer(), reader);
+        int stop = teller.tell(current, i);
         if (stop != 0) {
             return stop;
         }
@@ -137,8 +138,9 @@ public final class RecordTeller {
         if (reader == null) {
             throw new IllegalStateException();
         }
+        teller.prepare(writer(), reader);
         for (int i = 0; i < current.count(); i++) {
-            if (teller.tell(current, i, writer(), reader) != 0) {
+            if (teller.tell(current, i) != 0) {
                 return i;
             }
         }
@@ -655,11 +657,12 @@ public final class RecordTeller {
         static final int SIX = 6;
         static final int NODES = SIX + 128;
         // Branches, symbols and fields are values of lists of the text.
-        private static final int PARTS = ROOM / 2;
+        static final int PARTS = ROOM / 2;
 
         private final Cells kind = new Cells(NODES);
         private final Cells name = new Cells(NODES);
         private final Cells detail = new Cells(NODES);
+        private final Cells width = new Cells(NODES);
         private final Cells firstPart = new Cells(NODES);
         private final Cells parts = new Cells(NODES);
         private final Cells partNode = new Cells(PARTS);
@@ -675,7 +678,10 @@ public final class RecordTeller {
             kind.cut(0);
             for (int six = 0; six < SIX; six++) {
                 kind.add(six);
+                width.put(six, NONE);
             }
+            width.put(NULL, 0);
+            width.put(BOOLEAN, 1);
             partNode.cut(0);
             names.cut(0);
             defaults.cut(0);
@@ -695,6 +701,7 @@ public final class RecordTeller {
             kind.add(nodeKind);
             name.put(s, NONE);
             detail.put(s, NONE);
+            width.put(s, NONE);
             firstPart.put(s, 0);
             parts.put(s, 0);
             return s;
@@ -715,6 +722,29 @@ public final class RecordTeller {
 
         int fixedSize(int s) {
             return detail.at(s);
+        }
+
+        void setFixedSize(int s, int size) {
+            detail.put(s, size);
+            width.put(s, size);
+        }
+
+        /** How many bytes each datum of a node has; NONE if not all have as many, or more than a row can have. */
+        int width(int s) {
+            return width.at(s);
+        }
+
+        /** Behind its fields: one that lies in itself without an end finds no width of its own yet, and gets none. */
+        void measureRecord(int s) {
+            int sum = 0;
+            for (int k = 0; k < parts.at(s); k++) {
+                int one = width.at(partNode.at(firstPart.at(s) + k));
+                if (one == NONE || sum + one > ROOM) {
+                    return;
+                }
+                sum += one;
+            }
+            width.put(s, sum);
         }
 
         /** The symbol that stands for those that an enum does not have, or NONE. */
@@ -741,6 +771,10 @@ public final class RecordTeller {
 
         int parts(int s) {
             return parts.at(s);
+        }
+
+        int allParts() {
+            return partNode.count();
         }
 
         int part(int s, int k) {
@@ -1090,7 +1124,7 @@ public final class RecordTeller {
             if (text.kind(m) != Text.NUMBER || text.number(m) < 0 || text.number(m) > BIGGEST_FIXED) {
                 return fail(10, m);
             }
-            plan.setDetail(s, (int) text.number(m));
+            plan.setFixedSize(s, (int) text.number(m));
             return s;
         }
 
@@ -1156,6 +1190,7 @@ public final class RecordTeller {
                 lookAtField(s, plan.part(s, k), field, depth);
                 field = text.next(field);
             }
+            plan.measureRecord(s);
             return s;
         }
 
@@ -1603,8 +1638,12 @@ public final class RecordTeller {
     /** Tells a normal row of one schema as another schema. */
     private static final class Teller {
         private static final int LEVELS = 33, FIELDS = 32, MOST_ITEMS = 2000;
+        private static final int UNKNOWN = -2;
 
         private final Cells told = new Cells(ROOM);
+        // Which field of the writer's record each field of the reader is told from, or NONE: it is always the
+        // same, as just one record of the writer can have the name of the reader's.
+        private final Cells origins = new Cells(Schema.PARTS);
         // Where the fields of the records begin that are being told, a stretch for each level.
         private final Cells begins = new Cells(LEVELS * (FIELDS + 1));
         private Cells bytes;
@@ -1613,16 +1652,24 @@ public final class RecordTeller {
         private int pos;
         private int stop;
 
+        /** Says by which schemas rows are told from now on. */
+        void prepare(Schema from, Schema to) {
+            writer = from;
+            reader = to;
+            int count = to == null ? 0 : to.allParts();
+            for (int field = 0; field < count; field++) {
+                origins.put(field, UNKNOWN);
+            }
+        }
+
         /** Answers 0, UNRESOLVED or FULL. */
-        int tell(Rows rows, int i, Schema from, Schema to) {
+        int tell(Rows rows, int i) {
             told.cut(0);
             stop = 0;
-            if (rows == null || from == null || to == null) {
+            if (rows == null || writer == null || reader == null) {
                 return UNRESOLVED;
             }
             bytes = rows.bytes();
-            writer = from;
-            reader = to;
             pos = rows.start(i);
             tellDatum(writer.root(), reader.root(), 0);
             return stop;
@@ -1737,7 +1784,9 @@ public final class RecordTeller {
                     tellDatum(writer.item(w), reader.item(r), depth + 1);
                 }
             }
-            put(varint());
+            if (stop == 0) {
+                put(varint());
+            }
         }
 
         private void tellFields(int w, int r, int depth) {
@@ -1747,7 +1796,7 @@ public final class RecordTeller {
             begins.put(base, pos);
             for (int k = 0; k < reader.parts(r) && stop == 0; k++) {
                 int field = reader.part(r, k);
-                int own = writer.partNamed(w, reader.names(), reader.partName(field));
+                int own = origin(w, field);
                 if (own == NONE) {
                     tellDefault(field);
                 } else {
@@ -1760,8 +1809,21 @@ public final class RecordTeller {
                     }
                 }
             }
+            // What was not told to its end has left the place somewhere: what is skipped from there may never end.
+            if (stop != 0) {
+                return;
+            }
             skipFields(w, known, writer.parts(w), depth);
             pos = begins.at(base + writer.parts(w));
+        }
+
+        private int origin(int w, int field) {
+            int own = origins.at(field);
+            if (own == UNKNOWN) {
+                own = writer.partNamed(w, reader.names(), reader.partName(field));
+                origins.put(field, own);
+            }
+            return own;
         }
 
         /** Finds where the fields up to one begin; answers how many are known then. */
@@ -1783,14 +1845,16 @@ public final class RecordTeller {
             }
         }
 
+        /** Only from where a datum begins, so that no more are skipped than load has looked at. */
         private void skip(int s, int depth) {
+            if (writer.width(s) != NONE) {
+                pos += writer.width(s);
+                return;
+            }
             if (depth >= LEVELS) {
                 return;
             }
             switch (writer.kind(s)) {
-                case Schema.BOOLEAN:
-                    pos++;
-                    return;
                 case Schema.INT:
                 case Schema.LONG:
                 case Schema.ENUM:
@@ -1801,9 +1865,6 @@ public final class RecordTeller {
                     // In two steps, as the place is one behind the varint.
                     int length = (int) varint();
                     pos += length;
-                    return;
-                case Schema.FIXED:
-                    pos += writer.fixedSize(s);
                     return;
                 case Schema.UNION:
                     skip(writer.branch(s, (int) varint()), depth + 1);
