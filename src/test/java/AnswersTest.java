@@ -5,15 +5,17 @@ import java.util.concurrent.Callable;
 /** Calls that have to come to an answer, by schemas of which a datum would have more parts than can be counted. */
 public final class AnswersTest {
     private static final int SECONDS = 10;
-    private static final String FORTY_TWO = "0 ".repeat(42);
+    private static final String FORTY_ONE = "0 ".repeat(41);
 
     public static void main(String[] args) throws InterruptedException {
         behindUnresolved("\"null\"");
         behindUnresolved("\"boolean\"");
         behindUnresolved("\"string\"");
         behindUnresolved("\"Fx\"");
-        behindUnresolvedWithinItems();
-        behindFull();
+        behindUnresolvedWithinItems("\"null\"");
+        behindUnresolvedWithinItems("\"string\"");
+        behindFull("\"null\"");
+        behindFull("\"string\"");
         beforeWhatIsTold();
         rowsOfManyData();
         Check.done();
@@ -27,6 +29,10 @@ public final class AnswersTest {
         run.start();
         run.join(SECONDS * 1000);
         Check.due(what, got[0], want);
+        if (run.isAlive()) {
+            // It still works on the object: what others answer then tells nothing.
+            Check.done();
+        }
     }
 
     /** Row 0 as a place's schema, and all rows as that; what they answer before any of it is told. */
@@ -80,9 +86,9 @@ public final class AnswersTest {
         Check.due("letters", c.letters(1), "0 0 0 0 0 2 160 31 0");
     }
 
-    private static void behindUnresolvedWithinItems() throws InterruptedException {
+    private static void behindUnresolvedWithinItems(String first) throws InterruptedException {
         String item = Check.record("Item", "p=\"int\"", "q=\"Fx\"", "v=" + Check.array("\"Y\""));
-        Check c = new Check().keep(0, row("\"null\"", "i=" + Check.map(Check.array(item)), "u=[\"null\"," + Check.array("\"Y\"") + "]"))
+        Check c = new Check().keep(0, row(first, "i=" + Check.map(Check.array(item)), "u=[\"null\"," + Check.array("\"Y\"") + "]"))
                 .keep(1, Check.record("Row", "i=" + Check.map(Check.array(Check.record("Item", "q=\"int\"")))))
                 .keep(2, Check.record("Row", "i=" + Check.map(Check.array(Check.record("Item", "q=" + Check.fixed("Fx", 3), "x=\"int\"")))))
                 .keep(3, Check.record("Row", "i=" + Check.map(Check.array(Check.record("Item", "p=\"long\"")))));
@@ -94,15 +100,15 @@ public final class AnswersTest {
         Check.due("letters", c.letters(1), "2 2 107 4 6 8 0 0");
     }
 
-    private static void behindFull() throws InterruptedException {
+    private static void behindFull(String first) throws InterruptedException {
         String item = Check.record("Pair", "a=\"int\"");
         String big = ",d=\"string\"=\"" + "y".repeat(98) + "\"";
-        Check c = new Check().keep(0, row("\"null\"", "q=" + Check.array(item), "u=[\"null\"," + Check.array("\"Y\"") + "]"))
+        Check c = new Check().keep(0, row(first, "q=" + Check.array(item), "u=[\"null\"," + Check.array("\"Y\"") + "]"))
                 .keep(1, Check.record("Row", "q=" + Check.array(Check.record("Pair", ("a=\"int\"" + big).split(",")))))
                 .keep(2, Check.record("Row", "q=" + Check.array(Check.record("Pair", ("a=\"int\"" + big).split(","))), "u=\"null\""))
                 .keep(3, Check.record("Row", "u=[\"null\"]", "q=" + Check.array(item)));
-        // 101 bytes an item and two before them: the 41st is FULL; what comes behind it tells of 2000 triples.
-        rows(c, "0 0 0 0 0  88 " + FORTY_TWO + "2 160 31  0  0", 1);
+        // 101 bytes an item and one before them: the 41st is FULL; what comes behind it tells of 2000 triples.
+        rows(c, "0 0 0 0 0  88 " + FORTY_ONE + "2 2 160 31  0  0", 1);
         told(c, 1, RecordTeller.FULL, 0);
         told(c, 2, RecordTeller.FULL, 0);
         told(c, 3, 48, 1);
