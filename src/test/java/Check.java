@@ -12,7 +12,8 @@ final class Check {
         asked++;
         if (!String.valueOf(got).equals(String.valueOf(want))) {
             wrong++;
-            System.out.println(what + " answered " + got + ", due is " + want);
+            String asks = what.length() > 400 ? what.substring(0, 300) + " .. " + what.substring(what.length() - 90) : what;
+            System.out.println(asks + " answered " + got + ", due is " + want);
         }
     }
 
@@ -37,6 +38,32 @@ final class Check {
             b[i] = (byte) numbers[i];
         }
         return b;
+    }
+
+    /** Bytes that are written as numbers, parted by blanks. */
+    static byte[] numbers(String written) {
+        String[] words = written.isBlank() ? new String[0] : written.trim().split(" +");
+        byte[] b = new byte[words.length];
+        for (int i = 0; i < b.length; i++) {
+            b[i] = (byte) Integer.parseInt(words[i]);
+        }
+        return b;
+    }
+
+    /** The bytes of a varint, written as numbers. */
+    static String varint(long v) {
+        return varint(v, 1);
+    }
+
+    /** A varint of so many bytes at least, more of them than it needs. */
+    static String varint(long v, int bytes) {
+        StringBuilder b = new StringBuilder();
+        long rest = v << 1 ^ v >> 63;
+        for (int k = 1; rest >>> 7 != 0 || k < bytes; k++) {
+            b.append(rest & 127 | 128).append(' ');
+            rest >>>= 7;
+        }
+        return b.append(rest).toString();
     }
 
     static byte[] join(byte[]... parts) {
@@ -105,12 +132,55 @@ final class Check {
         return this;
     }
 
+    /** A text that is a schema. */
+    static void good(String text) {
+        Check c = new Check();
+        due(text, c.schema(3, text), "0");
+        due("tape behind " + text, c.tapeLength(), 0);
+    }
+
     /** The fault of a text, whose place in it is marked by ^. */
     static void fault(int number, String marked) {
         Check c = new Check();
         due(marked, c.schema(0, marked.replace("^", "")), number + "@" + marked.indexOf('^'));
         due("kept after " + marked, answer(() -> c.teller.fits(0, 0)), "throws.IllegalStateException");
         due("tape after " + marked, c.tapeLength(), marked.length() - 1);
+    }
+
+    /** What load answers to a tape; due is a fault and its place, or how many rows, a colon and the normal bytes. */
+    static void rows(String schema, String tape, String due) {
+        rows(schema, numbers(tape), due);
+    }
+
+    static void rows(String schema, byte[] tape, String due) {
+        Check c = new Check().keep(1, schema);
+        String what = tape.length + " bytes " + java.util.Arrays.toString(java.util.Arrays.copyOf(tape, Math.min(40, tape.length)));
+        String got = c.load(1, tape);
+        if (!got.startsWith("-")) {
+            got = got + ": " + c.letters(0);
+            due("rows of " + what, c.teller.rows() + ": ", got.replaceAll(":.*", ": "));
+            due("tape behind " + what, c.tapeLength(), 0);
+        } else {
+            due("no rows of " + what, c.teller.rows(), 0);
+            due("tape behind " + what, c.tapeLength(), tape.length);
+        }
+        due(what + " as " + schema, got, due);
+    }
+
+    /** A row of a schema, told as another one. */
+    static void told(String writer, String row, String reader, String due) {
+        Check c = new Check().keep(0, writer).keep(1, reader);
+        due("rows of " + row, c.load(0, numbers(row)), "1");
+        due(row + " of " + writer + " as " + reader, c.read(1, 0), due);
+        due("all of them", c.teller.all(1), due.startsWith("-") ? 0 : 1);
+        due("twice", c.read(1, 0), due);
+    }
+
+    static void fits(boolean due, String w, String r) {
+        Check c = new Check().keep(2, w).keep(5, r);
+        due(w + " fits " + r, c.teller.fits(2, 5), due);
+        due(w + " fits itself", c.teller.fits(2, 2), true);
+        due("asked again: " + w + " fits " + r, c.teller.fits(2, 5), due);
     }
 
     /** How many bytes the tape has; it is as before then. */

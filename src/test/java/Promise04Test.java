@@ -18,12 +18,6 @@ public final class Promise04Test {
         Check.done();
     }
 
-    private static void good(String text) {
-        Check c = new Check();
-        Check.due(text, c.schema(3, text), "0");
-        Check.due("tape behind " + text, c.tapeLength(), 0);
-    }
-
     private static void texts() {
         for (String s : new String[] {"^", " ^", "\t\n\r ^", "^x", "^\u000b", "^,", "^]", "^}", "^:", "[^", "[^,", "[^}",
             "[1^", "[1^}", "[1 ^2]", "[1,^", "[1,^]", "[1,^,", "{^", "{^]", "{^,", "{^1:2}", "{\"a\"^", "{\"a\"^}",
@@ -34,16 +28,16 @@ public final class Promise04Test {
             "{\"a\":1,^\"a\"\u0001"}) {
             Check.fault(1, s);
         }
-        good("{\"a\":{\"a\":1},\"type\":\"int\",\"b\":{\"a\":1}}");
-        good("\r\n {\t\"type\" :\n\"array\" , \"items\":\r\"int\"\t} \n");
+        Check.good("{\"a\":{\"a\":1},\"type\":\"int\",\"b\":{\"a\":1}}");
+        Check.good("\r\n {\t\"type\" :\n\"array\" , \"items\":\r\"int\"\t} \n");
         Check.fault(4, "[^[[[[[[[[[[[[[[[[[[[[[[[]]]]]]]]]]]]]]]]]]]]]]]]");
         Check.fault(1, "[[[[[[[[[[[[[[[[[[[[[[[[^[]]]]]]]]]]]]]]]]]]]]]]]]]");
         Check.fault(1, "[[[[[[[[[[[[[[[[[[[[[[[[^[");
         Check.fault(1, "[[[[[[[[[[[[[[[[[[[[[[[[^{");
         Check.fault(1, "[[[[[[[[[[[[[[[[[[[[[[[[^");
-        good("{\"x\":" + "[".repeat(23) + "]".repeat(23) + ",\"type\":\"int\"}");
+        Check.good("{\"x\":" + "[".repeat(23) + "]".repeat(23) + ",\"type\":\"int\"}");
         Check.fault(1, "{\"x\":" + "[".repeat(23) + "^[" + "]".repeat(24) + ",\"type\":\"int\"}");
-        good(" ".repeat(4090) + "\"null\"");
+        Check.good(" ".repeat(4090) + "\"null\"");
         Check.fault(1, "[" + "1,".repeat(2047) + "1^");
         Check.fault(1, "[".repeat(24) + "1,".repeat(2036) + "^");
     }
@@ -55,12 +49,12 @@ public final class Promise04Test {
             "\"\\\"^", "\"\\\\\"^\"", "\"\\^ \"", "\"\\u00ff^", "\"~ !#[]{}^"}) {
             Check.fault(1, s);
         }
-        good("\"\\u0069nt\"");
-        good("\"\\u0069\\u006Et\"");
-        good("{\"t\\u0079pe\":\"int\",\" ~\\\"\\\\\\/\\b\\f\\n\\r\\t\\u00fF\\u0000\":0}");
+        Check.good("\"\\u0069nt\"");
+        Check.good("\"\\u0069\\u006Et\"");
+        Check.good("{\"t\\u0079pe\":\"int\",\" ~\\\"\\\\\\/\\b\\f\\n\\r\\t\\u00fF\\u0000\":0}");
         Check.fault(1, "{\"\\/\":1,^\"/\":2}");
         Check.fault(1, "{\"\\n\":1,^\"\\u000a\":2}");
-        good("{\"\\b\":1,\"\\f\":1,\"\\n\":1,\"\\r\":1,\"\\t\":1,\"b\":1,\"f\":1,\"n\":1,\"r\":1,\"t\":1,\"type\":\"int\"}");
+        Check.good("{\"\\b\":1,\"\\f\":1,\"\\n\":1,\"\\r\":1,\"\\t\":1,\"b\":1,\"f\":1,\"n\":1,\"r\":1,\"t\":1,\"type\":\"int\"}");
         Check.fault(1, "{\"\\t\":1,^\"\\u0009\":2}");
         Check.fault(1, "{\"\\r\":1,^\"\\u000D\":2}");
         Check.fault(1, "{\"\\b\":1,^\"\\u0008\":2}");
@@ -78,15 +72,15 @@ public final class Promise04Test {
         }
         for (String s : new String[] {"0", "-0", "7", "-7", "10", "9223372036854775807", "-9223372036854775808", "9223372036854775800"}) {
             Check.fault(2, "^" + s);
-            good("{\"a\":" + s + ",\"type\":\"int\"}");
+            Check.good("{\"a\":" + s + ",\"type\":\"int\"}");
         }
     }
 
     private static void words() {
         for (String s : new String[] {"null", "boolean", "int", "long", "bytes", "string"}) {
-            good("\"" + s + "\"");
-            good("{\"type\":\"" + s + "\"}");
-            good("{\"name\":5,\"type\":\"" + s + "\",\"items\":[]}");
+            Check.good("\"" + s + "\"");
+            Check.good("{\"type\":\"" + s + "\"}");
+            Check.good("{\"name\":5,\"type\":\"" + s + "\",\"items\":[]}");
         }
         for (String s : new String[] {"1", "null", "true", "false"}) {
             Check.fault(2, "^" + s);
@@ -100,8 +94,8 @@ public final class Promise04Test {
         Check.fault(3, "{\"type\":^\"union\"}");
         Check.fault(3, "{\"type\":^\"\"}");
         Check.fault(3, "[^\"F\"," + Check.fixed("F", 1) + "]");
-        good("[" + Check.fixed("F", 1) + "," + Check.array("\"F\"") + "]");
-        good("[" + Check.fixed("F", 1) + "," + Check.array("{\"type\":\"F\"}") + "]");
+        Check.good("[" + Check.fixed("F", 1) + "," + Check.array("\"F\"") + "]");
+        Check.good("[" + Check.fixed("F", 1) + "," + Check.array("{\"type\":\"F\"}") + "]");
         Check c = new Check().keep(0, Check.fixed("F", 1));
         Check.due("a name of another text", c.schema(0, "\"F\""), "3@0");
     }
@@ -120,13 +114,13 @@ public final class Promise04Test {
         Check.fault(6, "[" + Check.fixed("F", 1) + ",\"int\",^{\"type\":\"F\"}]");
         Check.fault(3, "[" + Check.array("\"int\"") + "," + Check.array("^\"foo\"") + "]");
         Check.fault(9, "[" + Check.fixed("F", 1) + "," + Check.fixed("F", 1).replace("\"F\"", "^\"F\"") + "]");
-        good("[" + Check.array("\"int\"") + "," + Check.map("\"int\"") + "," + Check.fixed("F", 1) + "," + Check.fixed("G", 1) + "]");
-        good("[\"int\",\"long\",\"bytes\",\"string\",\"null\",\"boolean\"]");
+        Check.good("[" + Check.array("\"int\"") + "," + Check.map("\"int\"") + "," + Check.fixed("F", 1) + "," + Check.fixed("G", 1) + "]");
+        Check.good("[\"int\",\"long\",\"bytes\",\"string\",\"null\",\"boolean\"]");
         StringBuilder sixteen = new StringBuilder("\"int\"");
         for (int k = 1; k < 16; k++) {
             sixteen.append(',').append(Check.fixed("F" + k, k));
         }
-        good("[" + sixteen + "]");
+        Check.good("[" + sixteen + "]");
         Check.fault(5, "^[" + sixteen + ",\"long\"]");
         Check.fault(5, "^[1,1,1,1,1,1,1,1,1,1,1,1,1,1,1,1,1]");
     }
@@ -148,16 +142,16 @@ public final class Promise04Test {
             Check.fault(8, "^{\"type\":\"" + s + "\",\"name\":\"A\"}");
             Check.fault(9, "{\"type\":\"" + s + "\",\"name\":^\"\"}");
         }
-        good("{\"items\":\"int\",\"type\":\"array\",\"values\":3}");
-        good(Check.map(Check.map("[\"null\"," + Check.map("\"int\"") + "]")));
+        Check.good("{\"items\":\"int\",\"type\":\"array\",\"values\":3}");
+        Check.good(Check.map(Check.map("[\"null\"," + Check.map("\"int\"") + "]")));
     }
 
     private static void names() {
         String longest = "a_Z09".repeat(6) + "_b";
         for (String s : new String[] {"a", "_", "Z", "_0", "z9", "union", "type", "Null", longest}) {
-            good(Check.fixed(s, 1));
-            good(Check.symbols("E", s));
-            good(Check.record("R", s + "=\"int\""));
+            Check.good(Check.fixed(s, 1));
+            Check.good(Check.symbols("E", s));
+            Check.good(Check.record("R", s + "=\"int\""));
         }
         for (String s : new String[] {"", "0", "9a", "a-b", "a.b", "a b", " a", "a\\n", "\\u00e9", "a\\u0000", longest + "x"}) {
             Check.fault(9, Check.fixed(s, 1).replace("\"name\":", "\"name\":^"));
@@ -167,21 +161,21 @@ public final class Promise04Test {
         for (String s : new String[] {"null", "boolean", "int", "long", "bytes", "string", "array", "map", "fixed", "enum", "record"}) {
             Check.fault(9, Check.fixed(s, 1).replace("\"name\":", "\"name\":^"));
             Check.fault(9, Check.record(s).replace("\"name\":", "\"name\":^"));
-            good(Check.symbols("E", s));
-            good(Check.record("R", s + "=\"int\""));
+            Check.good(Check.symbols("E", s));
+            Check.good(Check.record("R", s + "=\"int\""));
         }
         Check.fault(9, Check.record("R", "a=" + Check.record("R").replace("\"name\":", "\"name\":^")));
         Check.fault(9, Check.record("R", "a=" + Check.fixed("F", 0), "b=" + Check.symbols("F", "x").replace("\"name\":", "\"name\":^")));
-        good("{\"fields\":[{\"type\":[\"null\",\"R\"],\"name\":\"R\"}],\"type\":\"record\",\"name\":\"R\"}");
+        Check.good("{\"fields\":[{\"type\":[\"null\",\"R\"],\"name\":\"R\"}],\"type\":\"record\",\"name\":\"R\"}");
     }
 
     private static void fixedsAndEnums() {
         for (String s : new String[] {"-1", "65", "9223372036854775807", "4294967296", "\"4\"", "null", "[]", "true"}) {
             Check.fault(10, "{\"type\":\"fixed\",\"name\":\"F\",\"size\":^" + s + "}");
         }
-        good(Check.fixed("F", 0));
-        good(Check.fixed("F", 64));
-        good("{\"type\":\"fixed\",\"name\":\"F\",\"size\":-0}");
+        Check.good(Check.fixed("F", 0));
+        Check.good(Check.fixed("F", 64));
+        Check.good("{\"type\":\"fixed\",\"name\":\"F\",\"size\":-0}");
         for (String s : new String[] {"^1", "^\"a\"", "^{\"a\":1}", "^[]", "[^1]", "[\"a\",^null]", "[\"a\",^[\"b\"]]", "[\"a\",\"b\",^\"a\"]",
             "[\"a\",^\"\\u0061\"]", "[^\"\"]"}) {
             Check.fault(11, "{\"type\":\"enum\",\"name\":\"E\",\"symbols\":" + s + ",\"default\":1}");
@@ -190,12 +184,12 @@ public final class Promise04Test {
         for (int k = 1; k < 32; k++) {
             many.append(",\"a").append(k).append('"');
         }
-        good("{\"type\":\"enum\",\"name\":\"E\",\"symbols\":[" + many + "]}");
+        Check.good("{\"type\":\"enum\",\"name\":\"E\",\"symbols\":[" + many + "]}");
         Check.fault(11, "{\"type\":\"enum\",\"name\":\"E\",\"symbols\":^[" + many + ",\"b\"]}");
         for (String s : new String[] {"1", "null", "[]", "\"c\"", "\"\"", "\"A\""}) {
             Check.fault(12, "{\"default\":^" + s + ",\"type\":\"enum\",\"name\":\"E\",\"symbols\":[\"a\",\"b\"]}");
         }
-        good("{\"default\":\"\\u0062\",\"type\":\"enum\",\"name\":\"E\",\"symbols\":[\"a\",\"b\"]}");
+        Check.good("{\"default\":\"\\u0062\",\"type\":\"enum\",\"name\":\"E\",\"symbols\":[\"a\",\"b\"]}");
         // An enum's default is looked at at once, before what comes behind it.
         Check.fault(12, "[{\"type\":\"enum\",\"name\":\"E\",\"symbols\":[\"a\"],\"default\":^\"b\"},\"foo\"]");
     }
@@ -211,14 +205,14 @@ public final class Promise04Test {
         Check.fault(9, "{\"type\":\"record\",\"name\":\"R\",\"fields\":[{\"name\":^\"\"}]}");
         Check.fault(3, Check.record("R", "a=^\"S\"", "b=" + Check.record("S")));
         Check.fault(2, Check.record("R", "a=^7", "a=\"int\""));
-        good(Check.record("R"));
-        good(Check.record("R", "a=\"R\""));
-        good(Check.record("R", "a=" + Check.record("S", "a=\"R\""), "b=\"S\"", "c={\"type\":\"S\"}"));
+        Check.good(Check.record("R"));
+        Check.good(Check.record("R", "a=\"R\""));
+        Check.good(Check.record("R", "a=" + Check.record("S", "a=\"R\""), "b=\"S\"", "c={\"type\":\"S\"}"));
         String[] fields = new String[33];
         for (int k = 0; k < 33; k++) {
             fields[k] = "f" + k + "=\"int\"";
         }
-        good(Check.record("R", java.util.Arrays.copyOf(fields, 32)));
+        Check.good(Check.record("R", java.util.Arrays.copyOf(fields, 32)));
         Check.fault(11, Check.record("R", fields).replace("[", "^["));
     }
 
@@ -226,7 +220,7 @@ public final class Promise04Test {
         String text = Check.record("R", "e=" + Check.symbols("E", "a", "b"), "f=" + Check.fixed("F", 2),
                 "s=" + Check.record("S", "x=\"int\"", "y=\"null\""), "z=" + type + "=" + value);
         if (fits) {
-            good(text.replace("^", ""));
+            Check.good(text.replace("^", ""));
         } else {
             Check.fault(12, text);
         }
@@ -286,10 +280,10 @@ public final class Promise04Test {
             fits(false, "\"S\"", s);
         }
         // A field's own default does not help where a value of its record is written.
-        good(Check.record("R", "s=" + Check.record("S", "x=\"int\"=1") + "={\"x\":2}"));
+        Check.good(Check.record("R", "s=" + Check.record("S", "x=\"int\"=1") + "={\"x\":2}"));
         Check.fault(12, Check.record("R", "s=" + Check.record("S", "x=\"int\"=1") + "=^{}"));
         Check.fault(12, Check.record("R", "a=\"R\"={\"a\":{\"a\":^{}}}"));
-        good(Check.record("R", "a=[\"null\",\"R\"]=null"));
+        Check.good(Check.record("R", "a=[\"null\",\"R\"]=null"));
         Check.fault(12, Check.record("R", "a=[\"R\",\"null\"]=^null"));
     }
 
@@ -319,9 +313,9 @@ public final class Promise04Test {
         }
         // 1 + 31 * 4 = 125 without the last field.
         fields[31] = "g=" + Check.array(Check.array("\"int\""));
-        good(Check.record("R", fields));
+        Check.good(Check.record("R", fields));
         fields[31] = "g=[\"int\",\"long\"]";
-        good(Check.record("R", fields));
+        Check.good(Check.record("R", fields));
         fields[31] = "g=[\"int\",\"long\",^\"foo\",\"int\"]";
         Check.fault(13, Check.record("R", fields));
         fields[31] = "g=[\"int\",\"long\",^7]";
@@ -335,18 +329,18 @@ public final class Promise04Test {
         for (int k = 0; k < 15; k++) {
             deep = Check.array(deep);
         }
-        good(deep);
+        Check.good(deep);
         Check.fault(14, deep.replace("\"int\"", Check.array("^\"foo\"")));
         Check.fault(14, deep.replace("\"int\"", "[^7]"));
         Check.fault(14, deep.replace("\"int\"", Check.map("^[]")));
         Check.fault(14, deep.replace("\"int\"", Check.record("R", "a=^{}")));
-        good(deep.replace("\"int\"", Check.record("R")));
+        Check.good(deep.replace("\"int\"", Check.record("R")));
         String less = deep.replace(Check.array("\"int\""), "\"int\"");
-        good(less.replace("\"int\"", Check.record("R", "a=\"R\"")));
+        Check.good(less.replace("\"int\"", Check.record("R", "a=\"R\"")));
         Check.fault(14, less.replace("\"int\"", Check.record("R", "a=" + Check.array("^\"R\""))));
-        good(less.replace("\"int\"", "[\"R\"]").replace("\"R\"", Check.fixed("F", 2)));
+        Check.good(less.replace("\"int\"", "[\"R\"]").replace("\"R\"", Check.fixed("F", 2)));
         Check.fault(14, less.replace("\"int\"", Check.map("[^\"R\"]")));
-        good("[" + deep.replace("{\"type\":\"array\",\"items\":\"int\"}", "\"int\"") + ",\"null\"]");
+        Check.good("[" + deep.replace("{\"type\":\"array\",\"items\":\"int\"}", "\"int\"") + ",\"null\"]");
     }
 
     /** Faults leave nothing behind, however often they are told. */

@@ -17,217 +17,197 @@ public final class Promise05Test {
         Check.done();
     }
 
-    /** Loads bytes that are written as numbers; due is the answer, or the answer, a colon and the normal bytes. */
-    private static void rows(String schema, String tape, String due) {
-        Check c = new Check().keep(1, schema);
-        String[] words = tape.isBlank() ? new String[0] : tape.trim().split(" +");
-        byte[] b = new byte[words.length];
-        for (int i = 0; i < b.length; i++) {
-            b[i] = (byte) Integer.parseInt(words[i]);
-        }
-        String got = c.load(1, b);
-        if (!got.startsWith("-")) {
-            got = got + ": " + c.letters(0);
-            Check.due("rows of " + tape, c.teller.rows() + ": ", got.replaceAll(":.*", ": "));
-            Check.due("tape behind " + tape, c.tapeLength(), 0);
-        } else {
-            Check.due("no rows of " + tape, c.teller.rows(), 0);
-            Check.due("tape behind " + tape, c.tapeLength(), b.length);
-        }
-        Check.due(tape + " as " + schema, got, due);
-    }
-
     private static void simple() {
-        rows("\"boolean\"", "0 1 1", "3: 0 1 1");
-        rows("\"boolean\"", "0 1 2 3", "-3@2");
-        rows("\"boolean\"", "255", "-3@0");
-        rows(Check.fixed("F", 3), "1 2 3 4 5 255", "2: 1 2 3 4 5 255");
-        rows(Check.fixed("F", 3), "1 2 3 4 5", "-1@5");
-        rows(Check.fixed("F", 64), "1", "-1@1");
-        rows(Check.record("R", "a=\"null\"", "b=\"boolean\"", "c=" + Check.fixed("F", 0), "d=\"int\""), "1 4 0 3", "2: 1 4 0 3");
-        rows(Check.record("R", "a=\"boolean\"", "b=\"boolean\""), "1 0 1", "-1@3");
-        rows(Check.record("R", "a=\"boolean\"", "b=\"boolean\""), "1 0 1 2", "-3@3");
+        Check.rows("\"boolean\"", "0 1 1", "3: 0 1 1");
+        Check.rows("\"boolean\"", "0 1 2 3", "-3@2");
+        Check.rows("\"boolean\"", "255", "-3@0");
+        Check.rows(Check.fixed("F", 3), "1 2 3 4 5 255", "2: 1 2 3 4 5 255");
+        Check.rows(Check.fixed("F", 3), "1 2 3 4 5", "-1@5");
+        Check.rows(Check.fixed("F", 64), "1", "-1@1");
+        Check.rows(Check.record("R", "a=\"null\"", "b=\"boolean\"", "c=" + Check.fixed("F", 0), "d=\"int\""), "1 4 0 3", "2: 1 4 0 3");
+        Check.rows(Check.record("R", "a=\"boolean\"", "b=\"boolean\""), "1 0 1", "-1@3");
+        Check.rows(Check.record("R", "a=\"boolean\"", "b=\"boolean\""), "1 0 1 2", "-3@3");
     }
 
     private static void varints() {
         for (String t : new String[] {"\"int\"", "\"long\""}) {
-            rows(t, "0 1 2 3 126 127", "6: 0 1 2 3 126 127");
-            rows(t, "128 1 129 1", "2: 128 1 129 1");
-            rows(t, "254 255 255 255 15 255 255 255 255 15", "2: 254 255 255 255 15 255 255 255 255 15");
-            rows(t, "128 0", "1: 0");
-            rows(t, "129 128 128 0", "1: 1");
-            rows(t, LONGEST + " 0", "1: 0");
-            rows(t, "130 128 128 128 128 128 128 128 128 0 1", "2: 2 1");
-            rows(t, "128", "-1@1");
-            rows(t, "1 " + LONGEST, "-1@10");
-            rows(t, LONGEST + " 2", "-2@0");
-            rows(t, "5 " + LONGEST + " 128", "-2@1");
-            rows(t, LONGEST + " 129 0", "-2@0");
-            rows(t, LONGEST + " 255", "-2@0");
+            Check.rows(t, "0 1 2 3 126 127", "6: 0 1 2 3 126 127");
+            Check.rows(t, "128 1 129 1", "2: 128 1 129 1");
+            Check.rows(t, "254 255 255 255 15 255 255 255 255 15", "2: 254 255 255 255 15 255 255 255 255 15");
+            Check.rows(t, "128 0", "1: 0");
+            Check.rows(t, "129 128 128 0", "1: 1");
+            Check.rows(t, LONGEST + " 0", "1: 0");
+            Check.rows(t, "130 128 128 128 128 128 128 128 128 0 1", "2: 2 1");
+            Check.rows(t, "128", "-1@1");
+            Check.rows(t, "1 " + LONGEST, "-1@10");
+            Check.rows(t, LONGEST + " 2", "-2@0");
+            Check.rows(t, "5 " + LONGEST + " 128", "-2@1");
+            Check.rows(t, LONGEST + " 129 0", "-2@0");
+            Check.rows(t, LONGEST + " 255", "-2@0");
         }
-        rows("\"int\"", "128 128 128 128 16", "-2@0");
-        rows("\"int\"", "0 129 128 128 128 16", "-2@1");
-        rows("\"int\"", LONGEST + " 1", "-2@0");
-        rows("\"int\"", "255 255 255 255 255 255 255 255 255 1", "-2@0");
-        rows("\"int\"", "128 128 128 128 128 16", "-2@0");
-        rows("\"int\"", "128 128 128 128 144", "-1@5");
-        rows("\"long\"", "128 128 128 128 16", "1: 128 128 128 128 16");
-        rows("\"long\"", LONGEST + " 1", "1: " + LONGEST + " 1");
-        rows("\"long\"", "255 255 255 255 255 255 255 255 255 1", "1: 255 255 255 255 255 255 255 255 255 1");
-        rows("\"long\"", "254 255 255 255 255 255 255 255 255 1", "1: 254 255 255 255 255 255 255 255 255 1");
-        rows("\"long\"", "255 255 255 255 255 255 255 255 127", "1: 255 255 255 255 255 255 255 255 127");
-        rows("\"long\"", "255 255 255 255 255 255 255 255 255 0", "1: 255 255 255 255 255 255 255 255 127");
+        Check.rows("\"int\"", "128 128 128 128 16", "-2@0");
+        Check.rows("\"int\"", "0 129 128 128 128 16", "-2@1");
+        Check.rows("\"int\"", LONGEST + " 1", "-2@0");
+        Check.rows("\"int\"", "255 255 255 255 255 255 255 255 255 1", "-2@0");
+        Check.rows("\"int\"", "128 128 128 128 128 16", "-2@0");
+        Check.rows("\"int\"", "128 128 128 128 144", "-1@5");
+        Check.rows("\"long\"", "128 128 128 128 16", "1: 128 128 128 128 16");
+        Check.rows("\"long\"", LONGEST + " 1", "1: " + LONGEST + " 1");
+        Check.rows("\"long\"", "255 255 255 255 255 255 255 255 255 1", "1: 255 255 255 255 255 255 255 255 255 1");
+        Check.rows("\"long\"", "254 255 255 255 255 255 255 255 255 1", "1: 254 255 255 255 255 255 255 255 255 1");
+        Check.rows("\"long\"", "255 255 255 255 255 255 255 255 127", "1: 255 255 255 255 255 255 255 255 127");
+        Check.rows("\"long\"", "255 255 255 255 255 255 255 255 255 0", "1: 255 255 255 255 255 255 255 255 127");
     }
 
     private static void strings() {
         for (String t : new String[] {"\"bytes\"", "\"string\""}) {
-            rows(t, "0 2 255 6 1 2 3", "3: 0 2 255 6 1 2 3");
-            rows(t, "132 0 7 8", "1: 4 7 8");
-            rows(t, "4 1", "-1@2");
-            rows(t, "2", "-1@1");
-            rows(t, "1", "-6@0");
-            rows(t, "0 3 9 9", "-6@1");
-            rows(t, "255 255 255 255 255 255 255 255 255 1", "-6@0");
-            rows(t, "254 255 255 255 255 255 255 255 255 1 0", "-1@11");
-            rows(t, "128 128 128 128 16 0 0", "-1@7");
-            rows(t, "128 128 128 128 128 64 0 0", "-1@8");
-            rows(t, LONGEST + " 2", "-2@0");
+            Check.rows(t, "0 2 255 6 1 2 3", "3: 0 2 255 6 1 2 3");
+            Check.rows(t, "132 0 7 8", "1: 4 7 8");
+            Check.rows(t, "4 1", "-1@2");
+            Check.rows(t, "2", "-1@1");
+            Check.rows(t, "1", "-6@0");
+            Check.rows(t, "0 3 9 9", "-6@1");
+            Check.rows(t, "255 255 255 255 255 255 255 255 255 1", "-6@0");
+            Check.rows(t, "254 255 255 255 255 255 255 255 255 1 0", "-1@11");
+            Check.rows(t, "128 128 128 128 16 0 0", "-1@7");
+            Check.rows(t, "128 128 128 128 128 64 0 0", "-1@8");
+            Check.rows(t, LONGEST + " 2", "-2@0");
         }
     }
 
     private static void choices() {
         String u = "[\"null\",\"boolean\",\"int\"]";
-        rows(u, "0 2 1 4 130 0", "3: 0 2 1 4 2");
-        rows(u, "130 128 0 1", "1: 2 1");
-        rows(u, "0 6", "-4@1");
-        rows(u, "1", "-4@0");
-        rows(u, "4 2 " + LONGEST + " 1", "-4@2");
-        rows(u, "128 128 128 128 32", "-4@0");
-        rows(u, "2", "-1@1");
-        rows(u, "2 2", "-3@1");
-        rows("[\"int\"]", "0 8 2", "-4@2");
+        Check.rows(u, "0 2 1 4 130 0", "3: 0 2 1 4 2");
+        Check.rows(u, "130 128 0 1", "1: 2 1");
+        Check.rows(u, "0 6", "-4@1");
+        Check.rows(u, "1", "-4@0");
+        Check.rows(u, "4 2 " + LONGEST + " 1", "-4@2");
+        Check.rows(u, "128 128 128 128 32", "-4@0");
+        Check.rows(u, "2", "-1@1");
+        Check.rows(u, "2 2", "-3@1");
+        Check.rows("[\"int\"]", "0 8 2", "-4@2");
         String e = Check.symbols("E", "a", "b", "=c");
-        rows(e, "0 2 4 132 0", "4: 0 2 4 4");
-        rows(e, "0 6", "-5@1");
-        rows(e, "3", "-5@0");
-        rows(e, "128 128 128 128 32", "-5@0");
-        rows(e, "0 128", "-1@2");
-        rows(e, LONGEST + " 2", "-2@0");
+        Check.rows(e, "0 2 4 132 0", "4: 0 2 4 4");
+        Check.rows(e, "0 6", "-5@1");
+        Check.rows(e, "3", "-5@0");
+        Check.rows(e, "128 128 128 128 32", "-5@0");
+        Check.rows(e, "0 128", "-1@2");
+        Check.rows(e, LONGEST + " 2", "-2@0");
     }
 
     private static void blocks() {
         String a = Check.array("\"boolean\"");
-        rows(a, "0 0", "2: 0 0");
-        rows(a, "2 1 0", "1: 2 1 0");
-        rows(a, "2 1 4 0 1 2 1 0 0", "2: 8 1 0 1 1 0 0");
-        rows(a, "130 0 1 128 0", "1: 2 1 0");
-        rows(a, "2", "-1@1");
-        rows(a, "2 1", "-1@2");
-        rows(a, "4 1 2", "-3@2");
-        rows(a, LONGEST + " 2", "-2@0");
-        rows(a, "2 0 " + LONGEST + " 2", "-2@2");
+        Check.rows(a, "0 0", "2: 0 0");
+        Check.rows(a, "2 1 0", "1: 2 1 0");
+        Check.rows(a, "2 1 4 0 1 2 1 0 0", "2: 8 1 0 1 1 0 0");
+        Check.rows(a, "130 0 1 128 0", "1: 2 1 0");
+        Check.rows(a, "2", "-1@1");
+        Check.rows(a, "2 1", "-1@2");
+        Check.rows(a, "4 1 2", "-3@2");
+        Check.rows(a, LONGEST + " 2", "-2@0");
+        Check.rows(a, "2 0 " + LONGEST + " 2", "-2@2");
         String n = Check.array("\"null\"");
-        rows(n, "128 1 126 0", "1: 254 1 0");
-        rows(n, "8 0 0 6 6 0", "3: 8 0 0 12 0");
+        Check.rows(n, "128 1 126 0", "1: 254 1 0");
+        Check.rows(n, "8 0 0 6 6 0", "3: 8 0 0 12 0");
         String m = Check.map("\"int\"");
-        rows(m, "0", "1: 0");
-        rows(m, "2 2 97 8 0", "1: 2 2 97 8 0");
-        rows(m, "2 2 97 8 4 130 0 97 9 0 10 0", "1: 6 2 97 8 2 97 9 0 10 0");
-        rows(m, "2 1 0", "-6@1");
-        rows(m, "2 4 97", "-1@3");
-        rows(m, "2 2 97", "-1@3");
-        rows(m, "2 " + LONGEST + " 2", "-2@1");
+        Check.rows(m, "0", "1: 0");
+        Check.rows(m, "2 2 97 8 0", "1: 2 2 97 8 0");
+        Check.rows(m, "2 2 97 8 4 130 0 97 9 0 10 0", "1: 6 2 97 8 2 97 9 0 10 0");
+        Check.rows(m, "2 1 0", "-6@1");
+        Check.rows(m, "2 4 97", "-1@3");
+        Check.rows(m, "2 2 97", "-1@3");
+        Check.rows(m, "2 " + LONGEST + " 2", "-2@1");
         String aa = Check.array(Check.array("\"int\""));
-        rows(aa, "2 2 5 2 6 0 2 0 0", "1: 4 4 5 6 0 0 0");
-        rows(aa, "1 16 2 5 1 2 6 0 0 0", "-6@1");
+        Check.rows(aa, "2 2 5 2 6 0 2 0 0", "1: 4 4 5 6 0 0 0");
+        Check.rows(aa, "1 16 2 5 1 2 6 0 0 0", "-6@1");
     }
 
     private static void measuredBlocks() {
         String a = Check.array("\"boolean\"");
-        rows(a, "3 4 0 1 0", "1: 4 0 1 0");
-        rows(a, "3 4 0 1 2 1 1 2 0 0", "1: 8 0 1 1 0 0");
-        rows(a, "3 132 128 0 0 1 0", "1: 4 0 1 0");
-        rows(a, "3 2 0 1 0", "-6@1");
-        rows(a, "3 6 0 1 0", "-6@1");
-        rows(a, "3 3 0 1 0", "-6@1");
-        rows(a, "3 " + LONGEST + " 1 0 1 0", "-6@1");
-        rows(a, "3 255 255 255 255 255 255 255 255 255 1 0 1 0", "-6@1");
-        rows(a, "1 128 128 128 128 32 1 0", "-6@1");
-        rows(a, "3 6 0 1", "-6@1");
-        rows(a, "3 6 0", "-1@3");
-        rows(a, "3 6 0 2", "-3@3");
-        rows(a, "3", "-1@1");
-        rows(a, "3 128", "-1@2");
-        rows(a, "3 " + LONGEST + " 2 0 1 0", "-2@1");
-        rows(a, "3 4 0 1", "-1@4");
-        rows(Check.array("\"null\""), "3 0 0", "1: 4 0");
-        rows(Check.array("\"null\""), "3 2 0", "-6@1");
-        rows(Check.map("\"null\""), "1 4 2 97 3 4 2 98 0 0", "-6@5");
-        rows(Check.map("\"null\""), "1 4 2 97 3 6 2 98 0 0", "1: 6 2 97 2 98 0 0");
+        Check.rows(a, "3 4 0 1 0", "1: 4 0 1 0");
+        Check.rows(a, "3 4 0 1 2 1 1 2 0 0", "1: 8 0 1 1 0 0");
+        Check.rows(a, "3 132 128 0 0 1 0", "1: 4 0 1 0");
+        Check.rows(a, "3 2 0 1 0", "-6@1");
+        Check.rows(a, "3 6 0 1 0", "-6@1");
+        Check.rows(a, "3 3 0 1 0", "-6@1");
+        Check.rows(a, "3 " + LONGEST + " 1 0 1 0", "-6@1");
+        Check.rows(a, "3 255 255 255 255 255 255 255 255 255 1 0 1 0", "-6@1");
+        Check.rows(a, "1 128 128 128 128 32 1 0", "-6@1");
+        Check.rows(a, "3 6 0 1", "-6@1");
+        Check.rows(a, "3 6 0", "-1@3");
+        Check.rows(a, "3 6 0 2", "-3@3");
+        Check.rows(a, "3", "-1@1");
+        Check.rows(a, "3 128", "-1@2");
+        Check.rows(a, "3 " + LONGEST + " 2 0 1 0", "-2@1");
+        Check.rows(a, "3 4 0 1", "-1@4");
+        Check.rows(Check.array("\"null\""), "3 0 0", "1: 4 0");
+        Check.rows(Check.array("\"null\""), "3 2 0", "-6@1");
+        Check.rows(Check.map("\"null\""), "1 4 2 97 3 4 2 98 0 0", "-6@5");
+        Check.rows(Check.map("\"null\""), "1 4 2 97 3 6 2 98 0 0", "1: 6 2 97 2 98 0 0");
         // The bytes of items are counted as they stand there, not as they are in normal form.
-        rows(Check.array("\"int\""), "1 6 133 128 0 0", "1: 2 5 0");
-        rows(Check.array(Check.array("\"int\"")), "1 14 1 2 5 2 134 0 0 0", "1: 2 4 5 6 0 0");
+        Check.rows(Check.array("\"int\""), "1 6 133 128 0 0", "1: 2 5 0");
+        Check.rows(Check.array(Check.array("\"int\"")), "1 14 1 2 5 2 134 0 0 0", "1: 2 4 5 6 0 0");
     }
 
     private static void items() {
         String n = Check.array("\"null\"");
-        rows(n, "160 31 0", "1: 160 31 0");
-        rows(n, "162 31", "-6@0");
-        rows(n, "161 31", "-6@0");
-        rows(n, "159 31 0 0", "1: 160 31 0");
-        rows(n, "158 31 2 0 158 31 1 0 0 160 31 0", "3: 160 31 0 160 31 0 160 31 0");
-        rows(n, "158 31 4", "-6@2");
-        rows(n, "158 31 3", "-6@2");
-        rows(n, "2 158 31 2", "-6@3");
-        rows(n, LONGEST + " 1", "-6@0");
-        rows(n, "254 255 255 255 255 255 255 255 255 1", "-6@0");
-        rows(n, "255 255 255 255 255 255 255 255 255 1", "-6@0");
-        rows(n, "2 254 255 255 255 255 255 255 255 255 1", "-6@1");
-        rows(n, "2 255 255 255 255 255 255 255 255 255 1", "-6@1");
-        rows(n, "128 128 128 128 128 64 0", "-6@0");
-        rows(Check.map("\"null\""), "162 31", "-6@0");
-        rows(Check.map("\"null\""), "160 31", "-1@2");
+        Check.rows(n, "160 31 0", "1: 160 31 0");
+        Check.rows(n, "162 31", "-6@0");
+        Check.rows(n, "161 31", "-6@0");
+        Check.rows(n, "159 31 0 0", "1: 160 31 0");
+        Check.rows(n, "158 31 2 0 158 31 1 0 0 160 31 0", "3: 160 31 0 160 31 0 160 31 0");
+        Check.rows(n, "158 31 4", "-6@2");
+        Check.rows(n, "158 31 3", "-6@2");
+        Check.rows(n, "2 158 31 2", "-6@3");
+        Check.rows(n, LONGEST + " 1", "-6@0");
+        Check.rows(n, "254 255 255 255 255 255 255 255 255 1", "-6@0");
+        Check.rows(n, "255 255 255 255 255 255 255 255 255 1", "-6@0");
+        Check.rows(n, "2 254 255 255 255 255 255 255 255 255 1", "-6@1");
+        Check.rows(n, "2 255 255 255 255 255 255 255 255 255 1", "-6@1");
+        Check.rows(n, "128 128 128 128 128 64 0", "-6@0");
+        Check.rows(Check.map("\"null\""), "162 31", "-6@0");
+        Check.rows(Check.map("\"null\""), "160 31", "-1@2");
         // Items within items count, from the block on in which they are told.
         String nn = Check.array(n);
-        rows(nn, "2 158 31 0 0", "1: 2 158 31 0 0");
-        rows(nn, "2 160 31 0 0", "-6@1");
-        rows(nn, "4 2 0 156 31 0 0", "-6@3");
-        rows(nn, "4 2 0 154 31 0 0", "1: 4 2 0 154 31 0 0");
-        rows(Check.record("R", "a=" + n, "b=" + Check.map("\"null\"")), "158 31 0 2 2 97 0 160 31 0 0", "2: 158 31 0 2 2 97 0 160 31 0 0");
-        rows(Check.record("R", "a=" + n, "b=" + Check.map("\"null\"")), "158 31 0 4 2 97", "-6@3");
+        Check.rows(nn, "2 158 31 0 0", "1: 2 158 31 0 0");
+        Check.rows(nn, "2 160 31 0 0", "-6@1");
+        Check.rows(nn, "4 2 0 156 31 0 0", "-6@3");
+        Check.rows(nn, "4 2 0 154 31 0 0", "1: 4 2 0 154 31 0 0");
+        Check.rows(Check.record("R", "a=" + n, "b=" + Check.map("\"null\"")), "158 31 0 2 2 97 0 160 31 0 0", "2: 158 31 0 2 2 97 0 160 31 0 0");
+        Check.rows(Check.record("R", "a=" + n, "b=" + Check.map("\"null\"")), "158 31 0 4 2 97", "-6@3");
     }
 
     private static void depth() {
         // The row lies in none, its union in one, that one's branch in two: the 15th union lies in 29.
         String chain = Check.record("R", "n=[\"null\",\"R\"]");
-        rows(chain, "2 ".repeat(14) + "0", "1: " + "2 ".repeat(14) + "0");
-        rows(chain, "2 ".repeat(15) + "0", "-7@16");
-        rows(chain, "2 ".repeat(16) + "0", "-7@16");
-        rows(chain, "2 ".repeat(16), "-7@16");
-        rows(chain, "2 ".repeat(15), "-1@15");
-        rows(Check.record("R", "n=\"R\""), "0", "-7@0");
-        rows(Check.record("R", "b=\"boolean\"", "n=\"R\""), "1 ".repeat(40), "-7@31");
-        rows(Check.record("R", "b=\"boolean\"", "n=\"R\""), "1 ".repeat(31), "-7@31");
-        rows(Check.record("R", "b=\"boolean\"", "n=\"R\""), "1 ".repeat(30), "-1@30");
+        Check.rows(chain, "2 ".repeat(14) + "0", "1: " + "2 ".repeat(14) + "0");
+        Check.rows(chain, "2 ".repeat(15) + "0", "-7@16");
+        Check.rows(chain, "2 ".repeat(16) + "0", "-7@16");
+        Check.rows(chain, "2 ".repeat(16), "-7@16");
+        Check.rows(chain, "2 ".repeat(15), "-1@15");
+        Check.rows(Check.record("R", "n=\"R\""), "0", "-7@0");
+        Check.rows(Check.record("R", "b=\"boolean\"", "n=\"R\""), "1 ".repeat(40), "-7@31");
+        Check.rows(Check.record("R", "b=\"boolean\"", "n=\"R\""), "1 ".repeat(31), "-7@31");
+        Check.rows(Check.record("R", "b=\"boolean\"", "n=\"R\""), "1 ".repeat(30), "-1@30");
         String tree = Check.record("R", "n=" + Check.array("\"R\""));
-        rows(tree, "2 ".repeat(15) + "0 ".repeat(16), "1: " + "2 ".repeat(15) + "0 ".repeat(15) + "0");
-        rows(tree, "2 ".repeat(16) + "0 ".repeat(17), "-7@16");
+        Check.rows(tree, "2 ".repeat(15) + "0 ".repeat(16), "1: " + "2 ".repeat(15) + "0 ".repeat(15) + "0");
+        Check.rows(tree, "2 ".repeat(16) + "0 ".repeat(17), "-7@16");
         String maps = Check.record("R", "n=" + Check.map("\"R\""));
-        rows(maps, "2 0 ".repeat(16) + "0 ".repeat(17), "-7@32");
-        rows(maps, "2 0 ".repeat(15) + "2 1", "-6@31");
-        rows(maps, "2 0 ".repeat(15) + "0 ".repeat(16), "1: " + "2 0 ".repeat(15) + "0 ".repeat(15) + "0");
+        Check.rows(maps, "2 0 ".repeat(16) + "0 ".repeat(17), "-7@32");
+        Check.rows(maps, "2 0 ".repeat(15) + "2 1", "-6@31");
+        Check.rows(maps, "2 0 ".repeat(15) + "0 ".repeat(16), "1: " + "2 0 ".repeat(15) + "0 ".repeat(15) + "0");
     }
 
     private static void counts() {
         // A row of 2 n + 2 data for n items: the record, the array, and two for each item.
         String pairs = Check.record("R", "a=" + Check.array(Check.record("S", "x=\"null\"")), "b=\"boolean\"");
-        rows(pairs, "156 31 0 1", "1: 156 31 0 1");
+        Check.rows(pairs, "156 31 0 1", "1: 156 31 0 1");
         // 3 + 2 * 1999 = 4001 with the boolean.
-        rows(pairs, "158 31 0 1", "-8@3");
-        rows(pairs, "158 31 0", "-8@3");
-        rows(pairs, "158 31", "-1@2");
-        rows(pairs, "156 31 0 1 156 31 0 1", "2: 156 31 0 1 156 31 0 1");
-        rows(pairs, "160 31 0 1", "-8@2");
+        Check.rows(pairs, "158 31 0 1", "-8@3");
+        Check.rows(pairs, "158 31 0", "-8@3");
+        Check.rows(pairs, "158 31", "-1@2");
+        Check.rows(pairs, "156 31 0 1 156 31 0 1", "2: 156 31 0 1 156 31 0 1");
+        Check.rows(pairs, "160 31 0 1", "-8@2");
         // Where both could be told it is 7.
         StringBuilder b = new StringBuilder();
         for (int k = 0; k < 9; k++) {
@@ -238,18 +218,18 @@ public final class Promise05Test {
         String big = "{\"type\":\"record\",\"name\":\"T\",\"fields\":[" + b + ",{\"name\":\"k\",\"type\":[\"null\",\"A8\",\"A7\"]},"
                 + "{\"name\":\"l\",\"type\":" + Check.record("L", "n=\"L\"") + "}]}";
         // f0 .. f8 have 3 + 7 + .. + 1023 = 2035 data, and the row itself is one; so are k and its branch.
-        rows(big, "0", "-7@1");
-        rows(big.replace("\"n\",\"type\":\"L\"", "\"n\",\"type\":\"A8\""), "2", "-8@1");
+        Check.rows(big, "0", "-7@1");
+        Check.rows(big.replace("\"n\",\"type\":\"L\"", "\"n\",\"type\":\"A8\""), "2", "-8@1");
     }
 
     private static void empty() {
         for (String t : new String[] {"\"null\"", Check.fixed("F", 0), Check.record("R"), Check.record("R", "a=\"null\"", "b=" + Check.fixed("F", 0))}) {
-            rows(t, "", "-34");
-            rows(t, "0", "-34");
-            rows(t, "1 2 3", "-34");
+            Check.rows(t, "", "-34");
+            Check.rows(t, "0", "-34");
+            Check.rows(t, "1 2 3", "-34");
         }
-        rows("\"int\"", "", "-34");
-        rows(Check.record("R", "n=\"R\""), "", "-34");
+        Check.rows("\"int\"", "", "-34");
+        Check.rows(Check.record("R", "n=\"R\""), "", "-34");
     }
 
     private static void effects() {

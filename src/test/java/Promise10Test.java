@@ -15,142 +15,128 @@ public final class Promise10Test {
         Check.done();
     }
 
-    /** A row of a schema, told as another one. */
-    private static void told(String writer, String row, String reader, String due) {
-        Check c = new Check().keep(0, writer).keep(1, reader);
-        String[] words = row.trim().split(" +");
-        byte[] b = new byte[words.length];
-        for (int i = 0; i < b.length; i++) {
-            b[i] = (byte) Integer.parseInt(words[i]);
-        }
-        Check.due("rows of " + row, c.load(0, b), "1");
-        Check.due(row + " of " + writer + " as " + reader, c.read(1, 0), due);
-        Check.due("all of them", c.teller.all(1), due.startsWith("-") ? 0 : 1);
-        Check.due("twice", c.read(1, 0), due);
-    }
-
     private static void sixWords() {
         String[] types = {"boolean", "int", "long", "bytes", "string"};
         String[] rows = {"1", "2", "4", "2 7", "2 8"};
         for (int w = 0; w < types.length; w++) {
             for (int r = 0; r < types.length; r++) {
                 boolean fine = w == r || w == 1 && r == 2 || w == 3 && r == 4 || w == 4 && r == 3;
-                told("\"" + types[w] + "\"", rows[w], "\"" + types[r] + "\"", fine ? rows[w] : "-20");
+                Check.told("\"" + types[w] + "\"", rows[w], "\"" + types[r] + "\"", fine ? rows[w] : "-20");
             }
-            told("\"" + types[w] + "\"", rows[w], "\"null\"", "-20");
-            told("[\"null\"]", "0", "\"" + types[w] + "\"", "-20");
-            told("\"" + types[w] + "\"", rows[w], Check.array("\"" + types[w] + "\""), "-20");
-            told("\"" + types[w] + "\"", rows[w], Check.record("R"), "-20");
+            Check.told("\"" + types[w] + "\"", rows[w], "\"null\"", "-20");
+            Check.told("[\"null\"]", "0", "\"" + types[w] + "\"", "-20");
+            Check.told("\"" + types[w] + "\"", rows[w], Check.array("\"" + types[w] + "\""), "-20");
+            Check.told("\"" + types[w] + "\"", rows[w], Check.record("R"), "-20");
         }
-        told("[\"null\"]", "0", "\"null\"", "");
-        told("\"long\"", "133 128 0", "\"long\"", "5");
-        told("\"int\"", "255 255 255 255 15", "\"long\"", "255 255 255 255 15");
-        told("\"int\"", "1", Check.fixed("F", 1), "-20");
-        told("\"bytes\"", "2 1", Check.fixed("F", 1), "-20");
+        Check.told("[\"null\"]", "0", "\"null\"", "");
+        Check.told("\"long\"", "133 128 0", "\"long\"", "5");
+        Check.told("\"int\"", "255 255 255 255 15", "\"long\"", "255 255 255 255 15");
+        Check.told("\"int\"", "1", Check.fixed("F", 1), "-20");
+        Check.told("\"bytes\"", "2 1", Check.fixed("F", 1), "-20");
     }
 
     private static void unions() {
-        told("[\"null\",\"int\"]", "2 9", "\"int\"", "9");
-        told("[\"null\",\"int\"]", "2 9", "\"null\"", "-20");
-        told("[\"null\",\"int\"]", "0", "[\"int\",\"null\"]", "2");
-        told("[\"null\",\"int\"]", "2 9", "[\"int\",\"null\"]", "0 9");
-        told("\"int\"", "9", "[\"string\",\"long\",\"int\"]", "2 9");
-        told("\"int\"", "9", "[\"int\",\"long\"]", "0 9");
-        told("\"long\"", "9", "[\"int\",\"long\"]", "2 9");
-        told("\"long\"", "9", "[\"int\",\"string\"]", "-20");
-        told("\"bytes\"", "2 9", "[\"string\",\"bytes\"]", "0 2 9");
-        told("\"string\"", "2 9", "[\"null\",\"bytes\",\"string\"]", "2 2 9");
-        told("[\"int\",\"string\"]", "0 9", "[\"string\"]", "-20");
+        Check.told("[\"null\",\"int\"]", "2 9", "\"int\"", "9");
+        Check.told("[\"null\",\"int\"]", "2 9", "\"null\"", "-20");
+        Check.told("[\"null\",\"int\"]", "0", "[\"int\",\"null\"]", "2");
+        Check.told("[\"null\",\"int\"]", "2 9", "[\"int\",\"null\"]", "0 9");
+        Check.told("\"int\"", "9", "[\"string\",\"long\",\"int\"]", "2 9");
+        Check.told("\"int\"", "9", "[\"int\",\"long\"]", "0 9");
+        Check.told("\"long\"", "9", "[\"int\",\"long\"]", "2 9");
+        Check.told("\"long\"", "9", "[\"int\",\"string\"]", "-20");
+        Check.told("\"bytes\"", "2 9", "[\"string\",\"bytes\"]", "0 2 9");
+        Check.told("\"string\"", "2 9", "[\"null\",\"bytes\",\"string\"]", "2 2 9");
+        Check.told("[\"int\",\"string\"]", "0 9", "[\"string\"]", "-20");
         // What matches is not all that it may be told as.
-        told(Check.array("\"int\""), "2 9 0", "[" + Check.array("\"string\"") + "]", "-20");
-        told(Check.array("\"int\""), "0", "[" + Check.array("\"string\"") + "]", "-20");
-        told(Check.array("\"int\""), "0", Check.array("\"string\""), "0");
-        told(Check.array("[\"int\",\"null\"]"), "2 0 9 0", "[\"null\"," + Check.array("\"long\"") + "]", "2 2 9 0");
-        told(Check.array("[\"int\",\"null\"]"), "2 2 0", "[\"null\"," + Check.array("\"long\"") + "]", "-20");
-        told(Check.map("\"int\""), "2 2 97 9 0", "[" + Check.array("\"int\"") + "," + Check.map("[\"string\"]") + "]", "-20");
-        told(Check.map("\"int\""), "2 2 97 9 0", "[" + Check.array("\"int\"") + "," + Check.map("[\"string\",\"int\"]") + "]", "2 2 2 97 2 9 0");
-        told(Check.array(Check.map("\"int\"")), "2 0 0", "[" + Check.array(Check.map("\"string\"")) + "]", "-20");
-        told(Check.array(Check.map("\"int\"")), "2 0 0", "[" + Check.array(Check.array("\"int\"")) + "]", "-20");
-        told(Check.array(Check.map("\"int\"")), "2 0 0", "[" + Check.array(Check.map("\"long\"")) + "]", "0 2 0 0");
+        Check.told(Check.array("\"int\""), "2 9 0", "[" + Check.array("\"string\"") + "]", "-20");
+        Check.told(Check.array("\"int\""), "0", "[" + Check.array("\"string\"") + "]", "-20");
+        Check.told(Check.array("\"int\""), "0", Check.array("\"string\""), "0");
+        Check.told(Check.array("[\"int\",\"null\"]"), "2 0 9 0", "[\"null\"," + Check.array("\"long\"") + "]", "2 2 9 0");
+        Check.told(Check.array("[\"int\",\"null\"]"), "2 2 0", "[\"null\"," + Check.array("\"long\"") + "]", "-20");
+        Check.told(Check.map("\"int\""), "2 2 97 9 0", "[" + Check.array("\"int\"") + "," + Check.map("[\"string\"]") + "]", "-20");
+        Check.told(Check.map("\"int\""), "2 2 97 9 0", "[" + Check.array("\"int\"") + "," + Check.map("[\"string\",\"int\"]") + "]", "2 2 2 97 2 9 0");
+        Check.told(Check.array(Check.map("\"int\"")), "2 0 0", "[" + Check.array(Check.map("\"string\"")) + "]", "-20");
+        Check.told(Check.array(Check.map("\"int\"")), "2 0 0", "[" + Check.array(Check.array("\"int\"")) + "]", "-20");
+        Check.told(Check.array(Check.map("\"int\"")), "2 0 0", "[" + Check.array(Check.map("\"long\"")) + "]", "0 2 0 0");
         // A record matches by its name alone.
-        told(Check.record("R", "a=\"int\""), "9", "[" + Check.record("S", "a=\"int\"") + "," + Check.record("R", "b=\"int\"") + "]", "-20");
-        told(Check.record("R", "a=\"int\""), "9", "[" + Check.record("S", "a=\"int\"") + "," + Check.record("R", "a=\"long\"") + "]", "2 9");
-        told(Check.symbols("E", "a"), "0", "[\"int\"," + Check.symbols("E", "b", "a") + "]", "2 2");
-        told(Check.symbols("E", "a"), "0", "[\"int\"," + Check.symbols("E", "b") + "]", "-20");
-        told(Check.fixed("F", 1), "7", "[" + Check.fixed("G", 1) + "," + Check.fixed("F", 1) + "]", "2 7");
-        told(Check.fixed("F", 1), "7", "[" + Check.fixed("G", 1) + "," + Check.fixed("F", 2) + "]", "-20");
-        told("[[\"x\"]]".replace("[\"x\"]", Check.array("[\"null\",\"int\"]")), "0 4 0 2 9 0", Check.array("[\"int\",\"null\"]"), "4 2 0 9 0");
+        Check.told(Check.record("R", "a=\"int\""), "9", "[" + Check.record("S", "a=\"int\"") + "," + Check.record("R", "b=\"int\"") + "]", "-20");
+        Check.told(Check.record("R", "a=\"int\""), "9", "[" + Check.record("S", "a=\"int\"") + "," + Check.record("R", "a=\"long\"") + "]", "2 9");
+        Check.told(Check.symbols("E", "a"), "0", "[\"int\"," + Check.symbols("E", "b", "a") + "]", "2 2");
+        Check.told(Check.symbols("E", "a"), "0", "[\"int\"," + Check.symbols("E", "b") + "]", "-20");
+        Check.told(Check.fixed("F", 1), "7", "[" + Check.fixed("G", 1) + "," + Check.fixed("F", 1) + "]", "2 7");
+        Check.told(Check.fixed("F", 1), "7", "[" + Check.fixed("G", 1) + "," + Check.fixed("F", 2) + "]", "-20");
+        Check.told("[[\"x\"]]".replace("[\"x\"]", Check.array("[\"null\",\"int\"]")), "0 4 0 2 9 0", Check.array("[\"int\",\"null\"]"), "4 2 0 9 0");
     }
 
     private static void listsAndMaps() {
-        told(Check.array("\"int\""), "2 1 1 2 2 0", Check.array("\"long\""), "4 1 2 0");
-        told(Check.array("\"int\""), "2 1 0", Check.array("\"null\""), "-20");
-        told(Check.array("\"int\""), "0", Check.map("\"int\""), "-20");
-        told(Check.map("\"int\""), "0", Check.array("\"int\""), "-20");
-        told(Check.map("\"int\""), "0", Check.map(Check.record("R")), "0");
-        told(Check.map("\"string\""), "4 2 97 0 0 2 98 0", Check.map("\"bytes\""), "4 2 97 0 0 2 98 0");
-        told(Check.map("\"int\""), "2 2 97 1 0", Check.map("\"null\""), "-20");
-        told(Check.array(Check.array("\"int\"")), "4 2 1 2 2 0 0 0", Check.array(Check.array("[\"int\"]")), "4 4 0 1 0 2 0 0 0");
-        told(Check.array("\"null\""), "6 0", Check.array("[\"int\",\"null\"]"), "6 2 2 2 0");
-        told(Check.array("[\"null\",\"int\"]"), "4 0 2 9 0", Check.array("\"null\""), "-20");
+        Check.told(Check.array("\"int\""), "2 1 1 2 2 0", Check.array("\"long\""), "4 1 2 0");
+        Check.told(Check.array("\"int\""), "2 1 0", Check.array("\"null\""), "-20");
+        Check.told(Check.array("\"int\""), "0", Check.map("\"int\""), "-20");
+        Check.told(Check.map("\"int\""), "0", Check.array("\"int\""), "-20");
+        Check.told(Check.map("\"int\""), "0", Check.map(Check.record("R")), "0");
+        Check.told(Check.map("\"string\""), "4 2 97 0 0 2 98 0", Check.map("\"bytes\""), "4 2 97 0 0 2 98 0");
+        Check.told(Check.map("\"int\""), "2 2 97 1 0", Check.map("\"null\""), "-20");
+        Check.told(Check.array(Check.array("\"int\"")), "4 2 1 2 2 0 0 0", Check.array(Check.array("[\"int\"]")), "4 4 0 1 0 2 0 0 0");
+        Check.told(Check.array("\"null\""), "6 0", Check.array("[\"int\",\"null\"]"), "6 2 2 2 0");
+        Check.told(Check.array("[\"null\",\"int\"]"), "4 0 2 9 0", Check.array("\"null\""), "-20");
     }
 
     private static void named() {
-        told(Check.fixed("F", 2), "7 8", Check.fixed("F", 2), "7 8");
-        told(Check.fixed("F", 2), "7 8", Check.fixed("F", 3), "-20");
-        told(Check.fixed("F", 2), "7 8", Check.fixed("G", 2), "-20");
-        told(Check.fixed("F", 2), "7 8", "\"bytes\"", "-20");
-        told(Check.symbols("E", "a", "b", "c"), "4", Check.symbols("E", "c", "b"), "0");
-        told(Check.symbols("E", "a", "b", "c"), "2", Check.symbols("E", "c", "b"), "2");
-        told(Check.symbols("E", "a", "b", "c"), "0", Check.symbols("E", "c", "b"), "-20");
-        told(Check.symbols("E", "a", "b", "c"), "0", Check.symbols("E", "c", "=b"), "2");
-        told(Check.symbols("E", "=a", "b", "c"), "4", Check.symbols("E", "a", "b"), "-20");
-        told(Check.symbols("E", "a"), "0", Check.symbols("D", "a"), "-20");
-        told(Check.symbols("E", "ab"), "0", Check.symbols("E", "a", "b", "abc"), "-20");
-        told(Check.symbols("E", "a"), "0", Check.fixed("E", 1), "-20");
-        told(Check.symbols("E", "a"), "0", Check.record("E"), "-20");
-        told(Check.record("E", "a=\"int\""), "2", Check.symbols("E", "a"), "-20");
+        Check.told(Check.fixed("F", 2), "7 8", Check.fixed("F", 2), "7 8");
+        Check.told(Check.fixed("F", 2), "7 8", Check.fixed("F", 3), "-20");
+        Check.told(Check.fixed("F", 2), "7 8", Check.fixed("G", 2), "-20");
+        Check.told(Check.fixed("F", 2), "7 8", "\"bytes\"", "-20");
+        Check.told(Check.symbols("E", "a", "b", "c"), "4", Check.symbols("E", "c", "b"), "0");
+        Check.told(Check.symbols("E", "a", "b", "c"), "2", Check.symbols("E", "c", "b"), "2");
+        Check.told(Check.symbols("E", "a", "b", "c"), "0", Check.symbols("E", "c", "b"), "-20");
+        Check.told(Check.symbols("E", "a", "b", "c"), "0", Check.symbols("E", "c", "=b"), "2");
+        Check.told(Check.symbols("E", "=a", "b", "c"), "4", Check.symbols("E", "a", "b"), "-20");
+        Check.told(Check.symbols("E", "a"), "0", Check.symbols("D", "a"), "-20");
+        Check.told(Check.symbols("E", "ab"), "0", Check.symbols("E", "a", "b", "abc"), "-20");
+        Check.told(Check.symbols("E", "a"), "0", Check.fixed("E", 1), "-20");
+        Check.told(Check.symbols("E", "a"), "0", Check.record("E"), "-20");
+        Check.told(Check.record("E", "a=\"int\""), "2", Check.symbols("E", "a"), "-20");
     }
 
     private static void records() {
         String w = Check.record("R", "a=\"int\"", "b=\"string\"", "c=" + Check.array("\"int\""), "d=[\"null\",\"R\"]");
         String row = "6 4 104 105 4 1 2 0 2 7 0 0 0";
-        told(w, row, w, row);
-        told(w, row, Check.record("R"), "");
-        told(w, row, Check.record("S", "a=\"int\""), "-20");
-        told(w, row, Check.record("R", "c=" + Check.array("\"long\""), "a=\"long\""), "4 1 2 0 6");
-        told(w, row, Check.record("R", "d=[\"R\",\"null\"]", "b=\"bytes\""), "0 2 0 4 104 105");
-        told(w, row, Check.record("R", "b=\"int\""), "-20");
-        told(w, row, Check.record("R", "e=\"int\""), "-20");
-        told(w, row, Check.record("R", "e=\"int\"=-1", "a=\"int\""), "1 6");
-        told(w, row, Check.record("R", "a=\"int\"", "d=\"null\""), "-20");
-        told(w, row, Check.record("R", "a=\"string\"=\"x\""), "-20");
-        told(w, row, Check.record("R", "d=\"R\""), "-20");
+        Check.told(w, row, w, row);
+        Check.told(w, row, Check.record("R"), "");
+        Check.told(w, row, Check.record("S", "a=\"int\""), "-20");
+        Check.told(w, row, Check.record("R", "c=" + Check.array("\"long\""), "a=\"long\""), "4 1 2 0 6");
+        Check.told(w, row, Check.record("R", "d=[\"R\",\"null\"]", "b=\"bytes\""), "0 2 0 4 104 105");
+        Check.told(w, row, Check.record("R", "b=\"int\""), "-20");
+        Check.told(w, row, Check.record("R", "e=\"int\""), "-20");
+        Check.told(w, row, Check.record("R", "e=\"int\"=-1", "a=\"int\""), "1 6");
+        Check.told(w, row, Check.record("R", "a=\"int\"", "d=\"null\""), "-20");
+        Check.told(w, row, Check.record("R", "a=\"string\"=\"x\""), "-20");
+        Check.told(w, row, Check.record("R", "d=\"R\""), "-20");
         // Records in records, each one in another order.
         String in = Check.record("I", "x=\"int\"", "y=\"string\"", "z=\"boolean\"");
         String out = Check.record("O", "p=" + in, "q=\"int\"", "r=\"I\"");
         String back = Check.record("O", "r=" + Check.record("I", "z=\"boolean\"", "y=\"bytes\"", "n=\"int\"=3", "x=\"long\""), "q=\"long\"", "p=\"I\"");
-        told(out, "2 2 97 1 8 4 4 98 99 0", back, "0 4 98 99 6 4 8 1 2 97 6 2");
+        Check.told(out, "2 2 97 1 8 4 4 98 99 0", back, "0 4 98 99 6 4 8 1 2 97 6 2");
         // Behind a record whose fields were told in another order the next item begins where it should.
-        told(Check.array(in), "4 2 2 97 1 4 4 98 99 0 0", Check.array(Check.record("I", "z=\"boolean\"", "x=\"int\"")), "4 1 2 0 4 0");
-        told(Check.array(in), "4 2 2 97 1 4 4 98 99 0 0", Check.array(Check.record("I", "x=\"int\"")), "4 2 4 0");
-        told(Check.array(in), "4 2 2 97 1 4 4 98 99 0 0", Check.array(Check.record("I", "n=\"null\"=null")), "4 0");
-        told(Check.map("[\"null\"," + in + "]"), "4 2 107 2 2 2 97 1 2 108 0 0",
+        Check.told(Check.array(in), "4 2 2 97 1 4 4 98 99 0 0", Check.array(Check.record("I", "z=\"boolean\"", "x=\"int\"")), "4 1 2 0 4 0");
+        Check.told(Check.array(in), "4 2 2 97 1 4 4 98 99 0 0", Check.array(Check.record("I", "x=\"int\"")), "4 2 4 0");
+        Check.told(Check.array(in), "4 2 2 97 1 4 4 98 99 0 0", Check.array(Check.record("I", "n=\"null\"=null")), "4 0");
+        Check.told(Check.map("[\"null\"," + in + "]"), "4 2 107 2 2 2 97 1 2 108 0 0",
                 Check.map("[" + Check.record("I", "y=\"string\"") + ",\"null\"]"), "4 2 107 0 2 97 2 108 2 0");
         // A field that is skipped to when one before it was told last.
         String five = Check.record("Q", "a=\"int\"", "b=\"string\"", "c=\"int\"", "d=\"string\"", "e=\"int\"");
-        told(five, "2 2 97 4 4 98 99 6", Check.record("Q", "c=\"int\"", "a=\"int\"", "e=\"int\""), "4 2 6");
-        told(five, "2 2 97 4 4 98 99 6", Check.record("Q", "e=\"int\"", "b=\"string\"", "d=\"string\"", "a=\"int\""), "6 2 97 4 98 99 2");
+        Check.told(five, "2 2 97 4 4 98 99 6", Check.record("Q", "c=\"int\"", "a=\"int\"", "e=\"int\""), "4 2 6");
+        Check.told(five, "2 2 97 4 4 98 99 6", Check.record("Q", "e=\"int\"", "b=\"string\"", "d=\"string\"", "a=\"int\""), "6 2 97 4 98 99 2");
         // All that can be skipped.
         String all = Check.record("A", "a=\"null\"", "b=\"boolean\"", "c=\"int\"", "d=\"long\"", "e=\"bytes\"", "f=\"string\"",
                 "g=" + Check.fixed("F", 2), "h=" + Check.symbols("E", "x", "y"), "i=[\"int\",\"string\"]",
                 "j=" + Check.map("\"int\""), "k=" + Check.array("\"string\""), "l=" + Check.record("B", "m=\"int\"", "n=\"null\""), "z=\"int\"");
-        told(all, "1 200 1 133 1 4 1 2 2 3 9 9 2 2 2 65 4 2 97 1 0 2 0 2 0 0 12 14", Check.record("A", "z=\"int\""), "14");
+        Check.told(all, "1 200 1 133 1 4 1 2 2 3 9 9 2 2 2 65 4 2 97 1 0 2 0 2 0 0 12 14", Check.record("A", "z=\"int\""), "14");
         String two = Check.record("A", "a=\"long\"", "b=\"int\"");
         for (String skipped : new String[] {"0", "127", "126", "128 1", "255 127", "255 255 255 255 255 255 255 255 255 1",
             "254 255 255 255 255 255 255 255 255 1", "255 255 255 255 255 255 255 255 127"}) {
-            told(two, skipped + " 5", Check.record("A", "b=\"int\""), "5");
-            told(two, skipped + " 5", Check.record("A", "b=\"int\"", "a=\"long\""), "5 " + skipped);
+            Check.told(two, skipped + " 5", Check.record("A", "b=\"int\""), "5");
+            Check.told(two, skipped + " 5", Check.record("A", "b=\"int\"", "a=\"long\""), "5 " + skipped);
         }
     }
 
@@ -164,7 +150,7 @@ public final class Promise10Test {
         }
         String item = "2 2 97" + " 4".repeat(30) + " 6 ";
         String r = Check.record("W", "f31=\"int\"", "f0=" + Check.record("I", "y=\"string\"", "x=\"int\""), "f1=\"int\"");
-        told(Check.array(Check.record("W", fields)), "4 " + item + item + "0", Check.array(r), "4 6 2 97 2 4 6 2 97 2 4 0");
+        Check.told(Check.array(Check.record("W", fields)), "4 " + item + item + "0", Check.array(r), "4 6 2 97 2 4 6 2 97 2 4 0");
         String w = Check.record("R", "a=" + Check.array("\"boolean\""), "b=" + Check.map("\"null\""), "z=\"int\"");
         Check c = new Check().keep(0, w).keep(1, Check.record("R", "z=\"int\"", "a=" + Check.array("[\"boolean\"]")))
                 .keep(2, Check.record("R", "z=\"long\""));
@@ -186,19 +172,19 @@ public final class Promise10Test {
             String ends = k == 0 ? "" : "0 ".repeat(14);
             String r = Check.record("R", "n=" + types[k]);
             String row = (parts[k].repeat(14) + "0 " + ends).trim();
-            told(r, row, r, row);
+            Check.told(r, row, r, row);
             String after = Check.record("R", "n=" + types[k], "z=\"boolean\"");
             String longer = parts[k].repeat(14) + "0 " + (k == 0 ? "1 ".repeat(14) : "1 0 ".repeat(14)) + "0";
-            told(after, longer, after, longer);
-            told(after, longer, Check.record("R", "z=\"boolean\""), "0");
-            told(after, longer, Check.record("R", "z=\"boolean\"", "y=\"int\"=7", "n=" + types[k]),
+            Check.told(after, longer, after, longer);
+            Check.told(after, longer, Check.record("R", "z=\"boolean\""), "0");
+            Check.told(after, longer, Check.record("R", "z=\"boolean\"", "y=\"int\"=7", "n=" + types[k]),
                     "0 14 " + (k == 0 ? "2 1 14 ".repeat(14) + "0" : (parts[k] + "1 14 ").repeat(14) + "0" + " 0".repeat(14)));
         }
         // Fifteen lists in one another: the innermost row's list lies in 31 others.
         String tree = Check.record("R", "n=" + types[1]);
-        told(tree, "2 ".repeat(15) + "0" + " 0".repeat(15), tree, "2 ".repeat(15) + "0" + " 0".repeat(15));
+        Check.told(tree, "2 ".repeat(15) + "0" + " 0".repeat(15), tree, "2 ".repeat(15) + "0" + " 0".repeat(15));
         String maps = Check.record("R", "n=" + types[2]);
-        told(maps, "2 0 ".repeat(15) + "0" + " 0".repeat(15), maps, "2 0 ".repeat(15) + "0" + " 0".repeat(15));
+        Check.told(maps, "2 0 ".repeat(15) + "0" + " 0".repeat(15), maps, "2 0 ".repeat(15) + "0" + " 0".repeat(15));
     }
 
     private static void defaults() {
@@ -216,18 +202,18 @@ public final class Promise10Test {
             "4", "0", "4 2 1 0", "0", "4 2 98 2 2 97 4 0", "0 10", "0",
             "4 0 2 97 0 0 0", "2 0 2 107", "2 2 113 0 2 2 113 0 0"};
         for (int k = 0; k < types.length; k++) {
-            told(w, "1", Check.record("R", "n=" + types[k], "o=\"boolean\""), (due[k] + " 1").trim());
-            told(w, "1", Check.record("R", "n=" + types[k].replaceFirst("=.*", "")), "-20");
+            Check.told(w, "1", Check.record("R", "n=" + types[k], "o=\"boolean\""), (due[k] + " 1").trim());
+            Check.told(w, "1", Check.record("R", "n=" + types[k].replaceFirst("=.*", "")), "-20");
         }
         // More than 63 items, letters: two bytes tell how many.
-        told(w, "1", Check.record("R", "n=" + Check.array("\"null\"") + "=[" + "null,".repeat(63) + "null]"), "128 1 0");
-        told(w, "1", Check.record("R", "n=\"string\"=\"" + "a".repeat(64) + "\""), "128 1" + " 97".repeat(64));
+        Check.told(w, "1", Check.record("R", "n=" + Check.array("\"null\"") + "=[" + "null,".repeat(63) + "null]"), "128 1 0");
+        Check.told(w, "1", Check.record("R", "n=\"string\"=\"" + "a".repeat(64) + "\""), "128 1" + " 97".repeat(64));
     }
 
     private static void orders() {
         String w = Check.record("R", "a=" + Check.array("\"int\""));
         // UNRESOLVED comes at its turn: what is told before has no say unless it is FULL.
-        told(w, "2 1 0", Check.record("R", "a=" + Check.array("\"int\""), "b=\"int\""), "-20");
+        Check.told(w, "2 1 0", Check.record("R", "a=" + Check.array("\"int\""), "b=\"int\""), "-20");
         String big = "\"string\"=\"" + "x".repeat(1500) + "\"";
         String three = Check.record("R", "x=" + big, "y=" + big);
         Check c = new Check().keep(0, w).keep(1, three);
