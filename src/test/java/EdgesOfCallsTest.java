@@ -321,7 +321,8 @@ public final class EdgesOfCallsTest {
     /** "Minus the FAULT, 1 .. 8, or EMPTY when the tape has no byte, or a row ends (without a FAULT) and has none: all stays." */
     private static void faultyLoads() {
         String big = Check.record("W", "a=" + Check.array(Check.record("P", "x=\"null\"")), "z=\"int\"");
-        String[] types = {"\"int\"", "\"int\"", "\"boolean\"", "[\"null\"]", Check.symbols("E", "a"), "\"string\"", Check.record("R", "b=\"boolean\"", "a=\"R\""), big};
+        String[] types = {"\"int\"", "\"int\"", "\"boolean\"", "[\"null\"]", Check.symbols("E", "a"), "\"string\"",
+            Check.record("R", "b=\"boolean\"", "a=\"R\""), big};
         String[] good = {"5", "5", "1", "0", "0", "2 65", "", "2 0 5"};
         String[] bad = {"128", "255 255 255 255 255 255 255 255 255 255", "2", "2", "2", "1", "0 ".repeat(31), Check.varint(1999) + " 0"};
         int[] in = {1, 0, 0, 0, 0, 0, 31, 3};

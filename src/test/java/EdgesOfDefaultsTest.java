@@ -302,7 +302,8 @@ public final class EdgesOfDefaultsTest {
         Check.due("ten within one another", c.read(1, 0), "2 ".repeat(10) + "0" + " 0".repeat(10));
         Check.fault(12, tree.replace("^", open + "[^7]" + close));
         Check.fault(1, tree.replace("^", open + "[^[]]" + close));
-        String chain = "{\"type\":\"record\",\"name\":\"R\",\"fields\":[{\"name\":\"a\",\"type\":\"R\",\"default\":" + "{\"a\":".repeat(20) + "^{}" + "}".repeat(20) + "}]}";
+        String chain = "{\"type\":\"record\",\"name\":\"R\",\"fields\":[{\"name\":\"a\",\"type\":\"R\",\"default\":"
+                + "{\"a\":".repeat(20) + "^{}" + "}".repeat(20) + "}]}";
         Check.fault(12, chain);
         Check.fault(1, chain.replace("^{}", "{\"a\":^{}}"));
     }

@@ -394,7 +394,10 @@ public final class EdgesOfRowsTest {
         Check.rows(deep(30, "[\"null\"]"), before(30) + "0", "1: " + before(30) + "0");
     }
 
-    /** "(records, branches, items, fields each one within the other; a union's datum is one, its branch's, which lies in it, another; the row's own lies in none)" */
+    /**
+     * "(records, branches, items, fields each one within the other; a union's datum is one, its branch's, which lies
+     * in it, another; the row's own lies in none)"
+     */
     private static void whatCountsAsDepth() {
         int at = before(31).split(" ").length;
         // A union that lies in 31 others is fine, its branch lies in 32: behind the number of the branch.
@@ -573,7 +576,8 @@ public final class EdgesOfRowsTest {
             row += Check.varint(v, 10) + " ";
         }
         row += Check.varint(2, 10) + " 8 9 " + Check.varint(1, 10) + " 7 " + Check.varint(1, 10) + " " + Check.varint(1, 10) + " " + Check.varint(-5, 10) + " ";
-        row += Check.varint(1, 10) + " " + Check.varint(6, 10) + " " + Check.varint(-1, 10) + " " + Check.varint(10, 10) + " " + Check.varint(-7, 10) + " " + Check.varint(0, 10) + " ";
+        row += Check.varint(1, 10) + " " + Check.varint(6, 10) + " " + Check.varint(-1, 10) + " " + Check.varint(10, 10) + " "
+                + Check.varint(-7, 10) + " " + Check.varint(0, 10) + " ";
         row += Check.varint(-1, 10) + " " + Check.varint(21, 10) + " " + Check.varint(1, 10) + " 75 " + Check.varint(8, 10) + " " + Check.varint(1, 10) + " "
                 + Check.varint(0, 10) + " " + Check.varint(9, 10) + " " + Check.varint(0, 10);
         String due = "5 8 4 8 9 2 7 2 2 9 4 12 13 0 4 2 75 16 0 18 0";

@@ -558,7 +558,8 @@ public final class EdgesOfSchemasTest {
         Check.good("{\"type\":\"array\"" + any.replace("\"items\":[]", "\"items\":\"int\"") + "}");
         Check.good("{\"type\":\"map\"" + any.replace("\"values\":7", "\"values\":\"int\"") + "}");
         Check.good("{\"type\":\"fixed\"" + any.replace("[7]", "\"F\"").replace("-1", "1") + "}");
-        Check.good("{\"type\":\"enum\"" + any.replace("[7]", "\"F\"").replace("\"symbols\":{}", "\"symbols\":[\"a\"]").replace("\"default\":{}", "\"default\":\"a\"") + "}");
+        String ofEnum = any.replace("[7]", "\"F\"").replace("\"symbols\":{}", "\"symbols\":[\"a\"]");
+        Check.good("{\"type\":\"enum\"" + ofEnum.replace("\"default\":{}", "\"default\":\"a\"") + "}");
         Check.good("{\"type\":\"record\"" + any.replace("[7]", "\"F\"").replace("\"fields\":null", "\"fields\":[]") + "}");
         Check.good(named("record", "\"R\"", ",\"fields\":[{\"type\":\"R\",\"items\":7,\"name\":\"a\",\"size\":-1,\"symbols\":{},\"fields\":7}]"));
         Check.good("[" + Check.fixed("F", 1) + "," + Check.array("{\"type\":\"F\"" + any + "}") + "]");

@@ -206,7 +206,10 @@ public final class EdgesOfTellingTest {
         }
     }
 
-    /** "RECORD of the same name: for each of r's fields in order: ... told as that; or else its default ... UNRESOLVED: ... a ... field of which there is neither." */
+    /**
+     * "RECORD of the same name: for each of r's fields in order: the datum of w's field of the same name, told as that;
+     * or else its default ... UNRESOLVED: ... a symbol or field of which there is neither."
+     */
     private static void records() {
         String w = Check.record("R", "a=\"int\"", "b=\"string\"");
         String row = "5 2 65";
@@ -267,7 +270,10 @@ public final class EdgesOfTellingTest {
         told(Check.record("W", fields), row.toString(), Check.record("W", "f31=\"int\"", "f0=\"int\""), "62 0");
     }
 
-    /** "MATCHES: either is a union; the same one of the six; INT as LONG; BYTES, STRING; arrays or maps whose items match; FIXED ..., ENUM, RECORD of the same name." */
+    /**
+     * "MATCHES: either is a union; the same one of the six; INT as LONG; BYTES, STRING; arrays or maps whose items match;
+     * FIXED of the same name and size, ENUM, RECORD of the same name."
+     */
     private static void matches() {
         String[] types = {"\"null\"", "\"boolean\"", "\"int\"", "\"long\"", "\"bytes\"", "\"string\"", Check.array("\"int\""), Check.map("\"int\""),
             Check.fixed("A", 2), Check.fixed("A", 3), Check.fixed("B", 2), Check.symbols("A", "a"), Check.symbols("C", "a"), Check.record("A", "a=\"int\""),
@@ -331,7 +337,8 @@ public final class EdgesOfTellingTest {
     /** Rows of 4000 data, of 2000 items, and as many rows as a tape has bytes. */
     private static void asManyAsCanBe() {
         String pair = Check.record("P", "x=\"null\"");
-        Check.told(Check.record("W", "a=" + Check.array(pair)), Check.varint(1999) + " 0", Check.record("W", "a=" + Check.array(Check.record("P", "y=\"boolean\"=true"))),
+        String other = Check.record("P", "y=\"boolean\"=true");
+        Check.told(Check.record("W", "a=" + Check.array(pair)), Check.varint(1999) + " 0", Check.record("W", "a=" + Check.array(other)),
                 Check.varint(1999) + " 1".repeat(1999) + " 0");
         Check.told(Check.record("W", "a=" + Check.array(pair), "z=\"int\""), Check.varint(1998) + " 0 9", Check.record("W", "z=\"int\""), "9");
         Check.told(Check.array("\"boolean\""), "160 31" + " 1".repeat(2000) + " 0", Check.array("[\"boolean\"]"), "160 31" + " 0 1".repeat(2000) + " 0");
@@ -479,6 +486,19 @@ public final class EdgesOfTellingTest {
         Check.fits(true, Check.array("[\"int\"]"), "[" + Check.array("\"long\"") + "]");
         Check.fits(false, Check.array("\"int\""), "[" + Check.array("\"string\"") + "]");
         Check.fits(false, Check.record("R", "a=\"int\""), "[\"null\"," + Check.record("R", "b=\"int\"") + "]");
+        // It is asked for wherever it stands, among as many branches as there can be.
+        for (int n = 0; n < 16; n++) {
+            StringBuilder before = new StringBuilder();
+            StringBuilder behind = new StringBuilder();
+            for (int k = 0; k < 15; k++) {
+                (k < n ? before : behind).append(k < n ? "" : ",").append(Check.fixed("F" + k, k)).append(k < n ? "," : "");
+            }
+            Check.fits(true, Check.array("\"int\""), "[" + before + Check.array("[\"long\"]") + behind + "]");
+            Check.fits(false, Check.array("\"int\""), "[" + before + Check.array("[\"null\"]") + behind + "]");
+            Check.fits(false, "[\"int\"," + Check.array("\"int\"") + "]", "[" + before + "\"int\"" + behind + "]");
+            Check.fits(true, "[" + before + "\"int\"" + behind + "]", "[" + before + "\"long\"" + behind + "]");
+            Check.fits(false, "[" + before + "\"long\"" + behind + "]", "[" + before + "\"int\"" + behind + "]");
+        }
     }
 
     private static void fitsOfOthers() {
@@ -503,7 +523,10 @@ public final class EdgesOfTellingTest {
         Check.fits(true, Check.map(Check.array("\"bytes\"")), Check.map(Check.array("\"string\"")));
     }
 
-    /** "RECORD of the same name: each of r's fields is one of w's, which fits it (a default does not help there), or, if w has none of that name, has a default." */
+    /**
+     * "RECORD of the same name: each of r's fields is one of w's, which fits it (a default does not help there), or, if
+     * w has none of that name, has a default."
+     */
     private static void fitsOfRecords() {
         String w = Check.record("R", "a=\"int\"", "b=\"string\"");
         Check.fits(true, w, Check.record("R"));
@@ -537,7 +560,8 @@ public final class EdgesOfTellingTest {
         Check.fits(false, two, Check.record("A", "b=" + Check.record("B", "c=" + Check.map("[\"A\"]"), "a=[\"A\",\"null\"]")));
         Check.fits(false, two, Check.record("A", "b=" + Check.record("B", "c=" + Check.map("\"B\""), "a=\"A\"")));
         // One that is asked for by two ways, and fits by neither.
-        Check.fits(false, Check.record("R", "a=" + Check.record("S", "x=\"int\""), "b=\"S\""), Check.record("R", "a=" + Check.record("S", "x=\"null\""), "b=\"S\""));
+        Check.fits(false, Check.record("R", "a=" + Check.record("S", "x=\"int\""), "b=\"S\""),
+                Check.record("R", "a=" + Check.record("S", "x=\"null\""), "b=\"S\""));
     }
 
     /** What fits is told, of every pair of some schemas and of some rows of each. */
