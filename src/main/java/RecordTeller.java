@@ -1646,9 +1646,14 @@ public final class RecordTeller {
         private final Cells origins = new Cells(Schema.PARTS);
         // Where the fields of the records begin that are being told, a stretch for each level.
         private final Cells begins = new Cells(LEVELS * (FIELDS + 1));
+        // Where a row that is told has the writer's records of no bytes, by their nodes, and which telling that was.
+        private final Cells toldIn = new Cells(Schema.NODES);
+        private final Cells toldFrom = new Cells(Schema.NODES);
+        private final Cells toldTo = new Cells(Schema.NODES);
         private Cells bytes;
         private Schema writer;
         private Schema reader;
+        private int telling;
         private int pos;
         private int stop;
 
@@ -1665,6 +1670,7 @@ public final class RecordTeller {
         /** Answers 0, UNRESOLVED or FULL. */
         int tell(Rows rows, int i) {
             told.cut(0);
+            telling++;
             stop = 0;
             if (rows == null || writer == null || reader == null) {
                 return UNRESOLVED;
@@ -1746,7 +1752,7 @@ public final class RecordTeller {
             } else if (!Schema.matchPlainly(writer, w, reader, r)) {
                 halt(UNRESOLVED);
             } else if (kind == Schema.RECORD) {
-                tellFields(w, r, depth);
+                tellRecord(w, r, depth);
             } else if (kind == Schema.ENUM) {
                 tellSymbol(w, r);
             } else {
@@ -1786,6 +1792,21 @@ public final class RecordTeller {
             }
             if (stop == 0) {
                 put(varint());
+            }
+        }
+
+        /** One of no bytes is the same each time, and a row may have thousands of them. */
+        private void tellRecord(int w, int r, int depth) {
+            if (writer.width(w) != 0) {
+                tellFields(w, r, depth);
+            } else if (toldIn.at(w) == telling) {
+                putPart(told, toldFrom.at(w), toldTo.at(w));
+            } else {
+                int from = told.count();
+                tellFields(w, r, depth);
+                toldIn.put(w, telling);
+                toldFrom.put(w, from);
+                toldTo.put(w, told.count());
             }
         }
 

@@ -18,6 +18,8 @@ public final class AnswersTest {
         behindFull("\"string\"");
         beforeWhatIsTold();
         rowsOfManyData();
+        rowsOfManyUnions();
+        rowsOfManyDefaults();
         Check.done();
     }
 
@@ -135,6 +137,48 @@ public final class AnswersTest {
         Check.due("rows", c.load(0, new byte[4096]), 4096);
         due("all, turned", () -> c.teller.all(1), 4096);
         due("all, as they are", () -> c.teller.all(0), 4096);
+    }
+
+    /** Each of 1740 data of no byte is told as the last of sixteen branches, whose names differ in their last letter. */
+    private static void rowsOfManyUnions() throws InterruptedException {
+        StringBuilder branches = new StringBuilder("[");
+        for (char last = 'a'; last < 'p'; last++) {
+            branches.append(Check.record("x".repeat(31) + last)).append(',');
+        }
+        String own = Check.record("x".repeat(31) + 'p');
+        Check c = new Check().keep(0, tree(4, Check.record("L", "f=" + own)))
+                .keep(1, tree(4, Check.record("L", "f=" + branches + own + "]")));
+        Check.due("rows", c.load(0, new byte[4096]), 4096);
+        due("all, as unions", () -> c.teller.all(1), 4096);
+        Check.due("bytes of one", c.teller.read(1, 0), 4 * 15 * 29 + 1);
+    }
+
+    /** Each of 3480 data of no byte is told by thirty-two defaults of none. */
+    private static void rowsOfManyDefaults() throws InterruptedException {
+        String[] defaults = new String[32];
+        for (int k = 0; k < 32; k++) {
+            defaults[k] = "d" + k + "=\"null\"=null";
+        }
+        Check c = new Check().keep(0, tree(8, Check.record("L"))).keep(1, tree(8, Check.record("L", defaults)));
+        Check.due("rows", c.load(0, new byte[4096]), 4096);
+        due("all, by defaults", () -> c.teller.all(1), 4096);
+        Check.due("bytes of one", c.teller.read(1, 0), 1);
+    }
+
+    /** A row of one byte with 29 fields, each of fifteen, each of so many leaves. */
+    private static String tree(int leaves, String leaf) {
+        return Check.record("T", fields(29, Check.record("N", fields(15, Check.record("M", fields(leaves, leaf, "\"L\"")), "\"M\"")),
+                "\"N\"", "q=\"boolean\""));
+    }
+
+    /** So many fields, the first of which defines the type of the others, and perhaps more behind them. */
+    private static String[] fields(int count, String first, String others, String... more) {
+        List<String> all = new ArrayList<>();
+        for (int k = 0; k < count; k++) {
+            all.add("f" + k + "=" + (k == 0 ? first : others));
+        }
+        all.addAll(List.of(more));
+        return all.toArray(new String[0]);
     }
 
     private static String tree(String[] leaves) {

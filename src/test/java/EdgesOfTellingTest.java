@@ -17,6 +17,7 @@ public final class EdgesOfTellingTest {
         enums();
         records();
         orderOfFields();
+        recordsOfNoBytes();
         matches();
         asDeepAsCanBe();
         asManyAsCanBe();
@@ -268,6 +269,63 @@ public final class EdgesOfTellingTest {
         }
         told(Check.record("W", fields), row.toString(), Check.record("W", turned), back.toString());
         told(Check.record("W", fields), row.toString(), Check.record("W", "f31=\"int\"", "f0=\"int\""), "62 0");
+    }
+
+    /** "its default, made into bytes": by a record that has no bytes of its own, time and again, in one row and in many. */
+    private static void recordsOfNoBytes() {
+        String w = Check.record("T", "s=\"string\"", "a=" + Check.record("E"), "o=" + Check.record("O", "e=\"E\"", "n=\"null\"", "f=\"E\""),
+                "u=[\"int\",\"E\"]", "l=" + Check.array("\"E\""), "m=" + Check.map("\"O\""));
+        String five = Check.record("T", "s=\"string\"", "a=" + Check.record("E", "x=\"int\"=-5", "y=\"string\"=\"hi\""),
+                "o=" + Check.record("O", "f=[\"null\",\"E\"]", "n=\"null\"", "z=\"int\"=1", "e=\"E\""),
+                "l=" + Check.array("\"E\""), "m=" + Check.map("[\"O\",\"E\"]"), "u=[\"null\",\"E\",\"int\"]");
+        String seven = Check.record("T", "m=" + Check.map(Check.record("O", "e=" + Check.record("E", "q=\"int\"=7"))),
+                "a=\"E\"", "s=\"bytes\"", "l=" + Check.array("\"E\""));
+        Check c = new Check().keep(0, w).keep(1, five).keep(2, seven);
+        Check.due("rows", c.load(0, Check.numbers("2 65  2  4 0  2 2 66 0"
+                + "  0  0 4  0  0"
+                + "  4 67 68  2  0  4 2 69 2 70 0")), "3");
+        String e = "9 4 104 105";
+        String o = "2 " + e + " 2 " + e;
+        String[] asFive = {"2 65 " + e + " " + o + " 4 " + e + " " + e + " 0 2 2 66 0 " + o + " 0 2 " + e,
+            "0 " + e + " " + o + " 0 0 4 4",
+            "4 67 68 " + e + " " + o + " 0 4 2 69 0 " + o + " 2 70 0 " + o + " 0 2 " + e};
+        String[] asSeven = {"2 2 66 14 0 14 2 65 4 14 14 0", "0 14 0 0", "4 2 69 14 2 70 14 0 14 4 67 68 0"};
+        for (int turn = 0; turn < 6; turn++) {
+            int i = turn * 2 % 3;
+            Check.due("row " + i + " as five", c.read(1, i), asFive[i]);
+            Check.due("row " + i + " as seven", c.read(2, i), asSeven[i]);
+            Check.due("all as five", c.teller.all(1), 3);
+            Check.due("row " + (2 - i) + " as five", c.read(1, 2 - i), asFive[2 - i]);
+            Check.due("all as seven", c.teller.all(2), 3);
+        }
+        noBytesButFull();
+        // One that has bytes is told from its own each time, also where all have as many.
+        Check.told(Check.array(Check.record("E", "x=\"boolean\"", "y=" + Check.fixed("F", 2))), "6 0 7 8 1 9 10 0 11 12 0",
+                Check.array(Check.record("E", "y=" + Check.fixed("F", 2), "d=\"int\"=1", "x=\"boolean\"")),
+                "6 7 8 2 0 9 10 2 1 11 12 2 0 0");
+    }
+
+    /** A hundred bytes by each item of none: forty, and a string of 92 bytes, are told; of 93 they are not. */
+    private static void noBytesButFull() {
+        String y = "y=\"string\"=\"" + "y".repeat(98) + "\"";
+        Check c = new Check().keep(0, Check.record("T", "l=" + Check.array(Check.record("E")), "s=\"string\""))
+                .keep(1, Check.record("T", "l=" + Check.array(Check.record("E", y)), "s=\"string\""))
+                .keep(2, Check.record("T", "l=" + Check.array(Check.record("E", y, "z=\"int\"")), "s=\"string\""));
+        String s92 = Check.varint(92) + " 65".repeat(92);
+        String s93 = Check.varint(93) + " 65".repeat(93);
+        Check.due("rows", c.load(0, Check.numbers("80 0 " + s92 + " 0 " + s92 + " 80 0 " + s93 + " 82 0 0")), "4");
+        Check.due("a row that just has room", c.teller.read(1, 0), 4096);
+        Check.due("one without items", c.teller.read(1, 1), 95);
+        Check.due("a byte more", c.teller.read(1, 2), RecordTeller.FULL);
+        Check.due("an item more", c.teller.read(1, 3), RecordTeller.FULL);
+        Check.due("again", c.teller.read(1, 0), 4096);
+        Check.due("the last item's last byte", c.teller.letter(4000, 1), 121);
+        Check.due("the items' end", c.teller.letter(4001, 1), 0);
+        Check.due("what is behind it", c.teller.letter(4002, 1), 184);
+        Check.due("all", c.teller.all(1), 2);
+        Check.due("what no item can be", c.teller.read(2, 0) + " " + c.teller.read(2, 3), "-20 -20");
+        Check.due("without items", c.teller.read(2, 1), 95);
+        Check.due("all", c.teller.all(2), 0);
     }
 
     /**
